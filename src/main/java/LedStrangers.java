@@ -331,19 +331,20 @@ public final class LedStrangers {
     public int many(int fee, int what) throws IllegalArgumentException {
         checkFee(fee);
         checkBelow(what, 2);
-        int best = 0;
-        int bestCost = costByFirst();
-        int oneCost = leastCostWithOne(fee);
-        if (oneCost < bestCost) {
-            best = 1;
-            bestCost = oneCost;
+        int noneCost = costByFirst();
+        int oneCost = NO_COST_YET;
+        int twoCost = NO_COST_YET;
+        for (int one = 0; one < town.streets.places; one++) {
+            oneCost = Math.min(oneCost, costWithGuide(one, fee));
+            for (int two = one; two < town.streets.places; two++) {
+                twoCost = Math.min(twoCost, costWithTwoGuides(one, two, fee));
+            }
         }
-        int twoCost = leastCostWithTwo(fee);
-        if (twoCost < bestCost) {
-            best = 2;
-            bestCost = twoCost;
+        int least = Math.min(noneCost, Math.min(oneCost, twoCost));
+        if (what == 1) {
+            return least;
         }
-        return what == 0 ? best : bestCost;
+        return noneCost == least ? 0 : oneCost == least ? 1 : 2;
     }
 
     public int corner(int l) throws IllegalArgumentException {
@@ -486,7 +487,8 @@ public final class LedStrangers {
     }
 
     private int costByFirst() {
-        goThrough(FIRST);
+        setting.copyFrom(town, toldPeople);
+        course.run(town, setting, FIRST);
         return course.cost();
     }
 
@@ -504,26 +506,12 @@ public final class LedStrangers {
         return course.cost();
     }
 
-    private int leastCostWithOne(int fee) {
-        int least = costWithGuide(0, fee);
-        for (int place = 1; place < town.streets.places; place++) {
-            least = Math.min(least, costWithGuide(place, fee));
-        }
-        return least;
-    }
-
-    private int leastCostWithTwo(int fee) {
-        int least = NO_COST_YET;
-        for (int one = 0; one < town.streets.places; one++) {
-            for (int two = one; two < town.streets.places; two++) {
-                setting.copyFrom(town, toldPeople);
-                setting.addGuide(one, fee);
-                setting.addGuide(two, fee);
-                course.run(town, setting, FIRST);
-                least = Math.min(least, course.cost());
-            }
-        }
-        return least;
+    private int costWithTwoGuides(int one, int two, int fee) {
+        setting.copyFrom(town, toldPeople);
+        setting.addGuide(one, fee);
+        setting.addGuide(two, fee);
+        course.run(town, setting, FIRST);
+        return course.cost();
     }
 
     private int costWithLaw(int law) {
@@ -1223,9 +1211,11 @@ public final class LedStrangers {
             }
         }
 
+        /** That there is a way from there to where the stranger is bound is looked at before. */
         private boolean canLead(int p, int s, int minute) {
-            return personWhen[p] == minute && personAt[p] == strangerAt[s]
-                    && town.canLeadTo(p, strangerAt[s], town.goal[s]);
+            int end = town.goal[s];
+            return personWhen[p] == minute && personAt[p] == strangerAt[s] && (town.knows[p] >>> end & 1) != 0
+                    && town.streets.minutes[end][town.errand[p]] < NEVER;
         }
 
         private int firstPerson(int s, int minute) {
@@ -1343,7 +1333,10 @@ public final class LedStrangers {
             Arrays.fill(best[town.strangers], 0);
             for (int s = town.strangers - 1; s >= 0; s--) {
                 for (int taken = 0; taken < sets; taken++) {
-                    best[s][taken] = bestFrom(town, s, taken);
+                    // Those ahead have one person each at most.
+                    if (Integer.bitCount(taken) <= s) {
+                        best[s][taken] = bestFrom(town, s, taken);
+                    }
                 }
             }
             chooseFirst(town);
@@ -1446,7 +1439,7 @@ public final class LedStrangers {
             for (int p = 0; p < town.people; p++) {
                 notePassing(p);
             }
-            search(town.comesTo[stranger], town.comesAt[stranger], 0, 0, times);
+            search(this, town.comesTo[stranger], town.comesAt[stranger], 0, 0, times);
         }
 
         private void notePassing(int p) {
@@ -1463,23 +1456,24 @@ public final class LedStrangers {
         }
 
         /** From where he waits from a minute on, with those asked already (bits) and what they lost. */
-        private void search(int place, int from, int asked, int lostYet, int times) {
+        private static void search(Handing h, int place, int from, int asked, int lostYet, int times) {
             if (times < 0) {
                 return;
             }
+            Town town = h.town;
             for (int p = 0; p < town.people; p++) {
-                int minute = passes[p][place];
-                if (hasBit(asked, p) || minute < from || !town.canLeadTo(p, place, end)) {
+                int minute = h.passes[p][place];
+                if (hasBit(asked, p) || minute < from || !town.canLeadTo(p, place, h.end)) {
                     continue;
                 }
-                consider(lostYet + town.lossBy(p, place, end), minute + town.streets.minutes[place][end]);
+                h.consider(lostYet + town.lossBy(p, place, h.end), minute + town.streets.minutes[place][h.end]);
                 for (int to = 0; to < town.streets.places && times > 0; to++) {
-                    if (to == place || to == end || !town.streets.reaches(place, to)) {
+                    if (to == place || to == h.end || !town.streets.reaches(place, to)) {
                         continue;
                     }
                     int lostThen = lostYet + town.lossBy(p, place, to);
-                    if (lostThen <= leastLost) {
-                        search(to, minute + town.streets.minutes[place][to], asked | 1 << p, lostThen, times - 1);
+                    if (lostThen <= h.leastLost) {
+                        search(h, to, minute + town.streets.minutes[place][to], asked | 1 << p, lostThen, times - 1);
                     }
                 }
             }

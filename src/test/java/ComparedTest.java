@@ -10,7 +10,7 @@ public final class ComparedTest {
 
     public static void main(String[] args) {
         for (int i = 0; i < 900 && CHECKS.allRight(); i++) {
-            compareTown(townText(i % 6), i);
+            compareTown(townText(i % 7), i);
         }
         compareFaults(40000);
         CHECKS.end();
@@ -18,25 +18,26 @@ public final class ComparedTest {
 
     // ---- towns by lots
 
-    /** Styles: 0 to 3 small and crowded; 4 far and late; 5 large. */
+    /** Styles: 0 to 3 small; 4 far and late; 5 large; 6 crowded, with a short law. */
     private static String townText(int style) {
-        int places = style == 5 ? 8 + LOTS.nextInt(5) : 2 + LOTS.nextInt(6);
+        int places = style == 5 ? 8 + LOTS.nextInt(5) : style == 4 ? 6 + LOTS.nextInt(7) : 2 + LOTS.nextInt(6);
         int people = style == 5 ? 6 + LOTS.nextInt(5) : LOTS.nextInt(7);
         int strangers = style == 5 ? 3 + LOTS.nextInt(4) : LOTS.nextInt(6);
-        int latest = style == 4 ? 501 : 5 + LOTS.nextInt(40);
+        int latest = style == 4 ? 501 : style == 6 ? 2 : 5 + LOTS.nextInt(40);
         int longest = style == 4 ? 60 : 1 + LOTS.nextInt(9);
+        int shortest = style == 4 ? 45 : 1;
         List<String> clauses = new ArrayList<>();
         for (int i = 0; i < Math.min(20, places - 1 + LOTS.nextInt(places + 3)); i++) {
             int a = i < places - 1 && LOTS.nextInt(20) > 0 ? i + 1 : LOTS.nextInt(places);
             int b = style == 4 && a > 0 ? a - 1 : otherThan(a, places);
-            clauses.add("street " + a + " " + b + " " + (1 + LOTS.nextInt(longest)));
+            clauses.add("street " + a + " " + b + " " + (shortest + LOTS.nextInt(longest - shortest + 1)));
         }
         for (int i = 0; i < people; i++) {
-            int p = LOTS.nextInt(places);
+            int p = LOTS.nextInt(style == 6 ? 2 : places);
             clauses.add("person " + p + " " + otherThan(p, places) + " " + minute(latest) + " " + (1 + LOTS.nextInt(9)));
         }
         for (int i = 0; i < strangers; i++) {
-            int x = LOTS.nextInt(places);
+            int x = LOTS.nextInt(style == 6 ? 2 : places);
             clauses.add("stranger " + x + " " + otherThan(x, places) + " " + minute(latest));
         }
         for (int i = LOTS.nextInt(3); i > 0; i--) {
@@ -55,8 +56,8 @@ public final class ComparedTest {
         for (int i = LOTS.nextInt(4); i > 0 && strangers > 0; i--) {
             clauses.add("chance " + LOTS.nextInt(strangers) + " " + (1 + LOTS.nextInt(8)));
         }
-        if (LOTS.nextBoolean()) {
-            clauses.add("law " + LOTS.nextInt(4));
+        if (style == 6 || LOTS.nextBoolean()) {
+            clauses.add("law " + (style == 6 ? 1 : LOTS.nextInt(4)));
         }
         return fitting("places " + places + ";", clauses);
     }
@@ -80,7 +81,7 @@ public final class ComparedTest {
     }
 
     private static int minute(int latest) {
-        return LOTS.nextInt(latest);
+        return latest > 500 && LOTS.nextBoolean() ? 400 + LOTS.nextInt(101) : LOTS.nextInt(latest);
     }
 
     // ---- all answers

@@ -346,6 +346,9 @@ public final class PromisesTest {
             due("day: there", x.day(kind, 4), 1);
             due("day: leader by kind " + kind, x.leads(kind, 0, 0), leader[kind]);
         }
+        LedStrangers alike = Checks.of("places 3;street 0 1 5;street 1 2 5;person 0 1 0 9;person 0 1 0 2;person 0 1 0 2;"
+                + "stranger 1 2 5;");
+        due("day: of those who lose alike the first", alike.leads(1, 0, 0), 1);
         LedStrangers guideLast = Checks.of("places 2;street 0 1 5;person 1 0 0 1;not 0 1;stranger 0 1 5;guide 0 3;");
         due("day: people who don't know, then guides", guideLast.leads(0, 0, 0), 100);
         due("day: people who don't know, then guides", guideLast.leads(1, 0, 0), 100);
@@ -397,9 +400,10 @@ public final class PromisesTest {
         LedStrangers guided = Checks.of(ROW + "guide 0 2;law 1;stranger 0 3 0;");
         due("law: a guide goes all the way", guided.there(0, 0), 15);
         due("law: a guide goes all the way", guided.fees(0), 60);
-        // By the law the dear person loses nothing as far as place 1, the cheap one does.
-        LedStrangers choose = Checks.of(ROW + "street 0 3 15;person 0 3 0 1;person 0 1 0 9;law 1;stranger 0 2 0;");
-        due("law: choose by what is lost by it", choose.leads(1, 0, 0), 0);
+        // As far as place 1 the dear person loses nothing and the other 10; all the way 90 and 20.
+        LedStrangers choose = Checks.of("places 5;street 0 1 5;street 1 2 5;street 0 4 5;person 0 4 0 1;"
+                + "person 0 1 0 9;law 1;stranger 0 2 0;");
+        due("law: choose by what is lost by it", choose.leads(1, 0, 0), 1);
     }
 
     private static void promise11DayByHalf() {
@@ -534,6 +538,9 @@ public final class PromisesTest {
         LedStrangers least = Checks.of(ROW + "person 0 1 0 9;person 0 1 0 1;stranger 1 2 0;");
         due("match: least lost", least.matched(0), 1);
         due("match: least lost", least.match(1), 10);
+        LedStrangers dear = Checks.of(LONG_ROW + "person 0 1 0 99;stranger 11 0 0;");
+        due("match: led, however dear", dear.match(0), 1);
+        due("match: led, however dear", dear.match(1), 99 * (660 + 660 + 60 - 60));
         LedStrangers none = Checks.of("places 3;street 0 1 5;person 0 1 0 1;person 0 2 0 1;stranger 0 2 0;");
         due("match: no ways", none.match(0), 0);
         due("match: no ways", none.matched(0), -1);
