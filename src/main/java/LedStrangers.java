@@ -16,10 +16,12 @@ public final class LedStrangers {
     private static final int MOST_PLACES = 12;
     private static final int PLACES_UNTOLD = 4;
     private static final int MOST_STREETS = 20;
+    private static final int MOST_STREET_MINUTES = 60;
     private static final int MOST_PEOPLE = 10;
     private static final int MOST_STRANGERS = 8;
     private static final int MOST_GUIDES = 4;
     private static final int MOST_GUIDES_ADDED = 2;
+    private static final int MOST_WORTH = 99;
     private static final int LATEST_START = 500;
     private static final int LAST_MINUTE = 999;
     private static final int MOST_FEE = 9;
@@ -790,10 +792,41 @@ public final class LedStrangers {
                 fail(3, start);
             } else if (word == PLACES && clausesAhead > 0) {
                 fail(4, start);
-            } else if (word == PLACES || word == STREET || word == SIGN || word == GUIDE || word == LAW) {
-                readThing(into, word);
-            } else {
-                readSomebody(into, word);
+            }
+            if (faultKind != 0) {
+                return;
+            }
+            switch (word) {
+                case PLACES:
+                    readPlaces(into);
+                    break;
+                case STREET:
+                    readStreet(into);
+                    break;
+                case PERSON:
+                    readPerson(into);
+                    break;
+                case NOT:
+                    readNot(into);
+                    break;
+                case STRANGER:
+                    readStranger(into);
+                    break;
+                case FINDS:
+                    readFinds(into);
+                    break;
+                case CHANCE:
+                    readChance(into);
+                    break;
+                case SIGN:
+                    readSign(into);
+                    break;
+                case GUIDE:
+                    readGuide(into);
+                    break;
+                default:
+                    readLaw(into);
+                    break;
             }
         }
 
@@ -862,64 +895,85 @@ public final class LedStrangers {
             }
         }
 
-        private void readThing(Town into, int word) {
-            int mostPlace = into.streets.places - 1;
-            int a = word == PLACES ? readNumber(2, MOST_PLACES)
-                    : word == LAW ? readNumber(0, MOST_LAW) : readNumber(0, mostPlace);
-            int b = word == STREET || word == SIGN ? readOtherPlace(a, mostPlace)
-                    : word == GUIDE ? readNumber(0, MOST_FEE) : 0;
-            int c = word == STREET ? readNumber(1, 60) : 0;
-            readEnd();
-            if (faultKind != 0) {
-                return;
-            }
-            switch (word) {
-                case PLACES:
-                    into.streets.places = a;
-                    break;
-                case STREET:
-                    into.streets.addStreet(a, b, c);
-                    break;
-                case SIGN:
-                    into.signs[a] |= 1 << b;
-                    break;
-                case GUIDE:
-                    into.addGuide(a, b);
-                    break;
-                default:
-                    into.law = a;
-                    break;
+        private void readPlaces(Town into) {
+            int places = readNumber(2, MOST_PLACES);
+            if (endsWell()) {
+                into.streets.places = places;
             }
         }
 
-        private void readSomebody(Town into, int word) {
-            int mostPlace = into.streets.places - 1;
-            boolean isNew = word == PERSON || word == STRANGER;
-            int a = readNumber(0, isNew ? mostPlace : word == NOT ? into.people - 1 : into.strangers - 1);
-            int b = isNew ? readOtherPlace(a, mostPlace)
-                    : word == CHANCE ? readNumber(1, SURE_CHANCE) : readNumber(0, mostPlace);
-            int c = isNew ? readNumber(0, LATEST_START) : 0;
-            int d = word == PERSON ? readNumber(1, 99) : 0;
-            readEnd();
-            if (faultKind != 0) {
-                return;
+        private void readStreet(Town into) {
+            int a = readNumber(0, into.streets.places - 1);
+            int b = readOtherPlace(a, into.streets.places - 1);
+            int minutes = readNumber(1, MOST_STREET_MINUTES);
+            if (endsWell()) {
+                into.streets.addStreet(a, b, minutes);
             }
-            switch (word) {
-                case PERSON:
-                    into.addPerson(a, b, c, d);
-                    break;
-                case STRANGER:
-                    into.addStranger(a, b, c);
-                    break;
-                case NOT:
-                    into.knows[a] &= ~(1 << b);
-                    break;
-                case FINDS:
-                    into.finds[a] |= 1 << b;
-                    break;
-                default:
-                    into.chance[a] = b;
-                    break;
+        }
+
+        private void readPerson(Town into) {
+            int from = readNumber(0, into.streets.places - 1);
+            int to = readOtherPlace(from, into.streets.places - 1);
+            int minute = readNumber(0, LATEST_START);
+            int value = readNumber(1, MOST_WORTH);
+            if (endsWell()) {
+                into.addPerson(from, to, minute, value);
+            }
+        }
+
+        private void readNot(Town into) {
+            int who = readNumber(0, into.people - 1);
+            int place = readNumber(0, into.streets.places - 1);
+            if (endsWell()) {
+                into.knows[who] &= ~(1 << place);
+            }
+        }
+
+        private void readStranger(Town into) {
+            int comesTo = readNumber(0, into.streets.places - 1);
+            int goal = readOtherPlace(comesTo, into.streets.places - 1);
+            int minute = readNumber(0, LATEST_START);
+            if (endsWell()) {
+                into.addStranger(comesTo, goal, minute);
+            }
+        }
+
+        private void readFinds(Town into) {
+            int who = readNumber(0, into.strangers - 1);
+            int place = readNumber(0, into.streets.places - 1);
+            if (endsWell()) {
+                into.finds[who] |= 1 << place;
+            }
+        }
+
+        private void readChance(Town into) {
+            int who = readNumber(0, into.strangers - 1);
+            int chance = readNumber(1, SURE_CHANCE);
+            if (endsWell()) {
+                into.chance[who] = chance;
+            }
+        }
+
+        private void readSign(Town into) {
+            int place = readNumber(0, into.streets.places - 1);
+            int toldPlace = readOtherPlace(place, into.streets.places - 1);
+            if (endsWell()) {
+                into.signs[place] |= 1 << toldPlace;
+            }
+        }
+
+        private void readGuide(Town into) {
+            int place = readNumber(0, into.streets.places - 1);
+            int fee = readNumber(0, MOST_FEE);
+            if (endsWell()) {
+                into.addGuide(place, fee);
+            }
+        }
+
+        private void readLaw(Town into) {
+            int law = readNumber(0, MOST_LAW);
+            if (endsWell()) {
+                into.law = law;
             }
         }
 
@@ -959,13 +1013,15 @@ public final class LedStrangers {
             return sign >= '0' && sign <= '9';
         }
 
-        private void readEnd() {
+        /** Reads the clause's end: whether the clause has no fault. */
+        private boolean endsWell() {
             skipBlanks();
             if (at >= length || text[at] != ';') {
                 fail(1, at);
-                return;
+            } else {
+                at++;
             }
-            at++;
+            return faultKind == 0;
         }
     }
 
