@@ -1523,14 +1523,14 @@ public final class LedStrangers {
                     continue;
                 }
                 h.consider(lostYet + town.lossBy(p, place, h.end), minute + town.streets.minutes[place][h.end]);
-                for (int to = 0; to < town.streets.places && times > 0; to++) {
-                    if (to == place || to == h.end || !town.streets.reaches(place, to)) {
-                        continue;
-                    }
+                // He is led along the way to where he is bound, and nowhere else, however little that would lose.
+                int to = town.streets.step[place][h.end];
+                for (int i = 0; i < MOST_PLACES && times > 0 && to != h.end; i++) {
                     int lostThen = lostYet + town.lossBy(p, place, to);
                     if (lostThen <= h.leastLost) {
                         search(h, to, minute + town.streets.minutes[place][to], asked | 1 << p, lostThen, times - 1);
                     }
+                    to = town.streets.step[to][h.end];
                 }
             }
         }

@@ -604,10 +604,7 @@ final class PlainTown {
                 continue;
             }
             asked.add(k);
-            for (int z = 0; z < places; z++) {
-                if (far(place, z) < 0) {
-                    continue;
-                }
+            for (int z : way(place, y)) {
                 int[] rest = handFrom(z, passing + far(place, z), y, asked, leaders - 1);
                 if (rest != null) {
                     int lost = rest[0] + more(k, place, z);

@@ -44,6 +44,7 @@ public final class PromisesTest {
         promises17And18Match();
         promise19Bound();
         promise20Hand();
+        promise20HandAlongTheWay();
         promises21And22Signs();
         promises23And24Guides();
         promises25And26Laws();
@@ -575,13 +576,6 @@ public final class PromisesTest {
         due("hand: nobody comes", soon.hand(2, 2, 1), -1);
         LedStrangers alone = Checks.of(row + "person 1 4 0 1;sign 1 4;guide 1 0;not 0 4;stranger 1 4 0;");
         due("hand: no signs, no guides, who knows", alone.hand(0, 2, 0), -1);
-        // Two is no place of the way from 1 to 0, but who goes there anyway loses nothing by it.
-        LedStrangers round = Checks.of("street 0 1 5;street 1 2 5;street 2 3 5;street 3 0 4;"
-                + "person 1 2 0 7;person 2 0 9 1;stranger 1 0 0;");
-        due("hand: by one", round.hand(0, 0, 0), 7 * (5 + 9 - 5));
-        due("hand: by one", round.hand(0, 0, 1), 5);
-        due("hand: to any place", round.hand(0, 1, 0), 0);
-        due("hand: to any place", round.hand(0, 1, 1), 18);
         LedStrangers once = Checks.of(row + "person 0 4 0 1;not 0 4;stranger 0 4 0;person 0 1 0 1;");
         due("hand: each once", once.hand(0, 2, 0), 30);
         CHECKS.dueThrow("hand(1, 0, 0)", NOBODY, () -> x.hand(1, 0, 0));
@@ -591,6 +585,48 @@ public final class PromisesTest {
         CHECKS.dueThrow("hand(0, 0, 2)", ILLEGAL, () -> x.hand(0, 0, 2));
         CHECKS.dueThrow("hand(0, 0, -1)", ILLEGAL, () -> x.hand(0, 0, -1));
         CHECKS.dueThrow("hand(1, 3, 2)", NOBODY, () -> x.hand(1, 3, 2));
+    }
+
+    /** Handed on along the way to where he is bound, and nowhere else. */
+    private static void promise20HandAlongTheWay() {
+        // Who goes to 2 anyway would lose nothing by it, but 2 is no place of the way from 1 to 0.
+        LedStrangers round = Checks.of("street 0 1 5;street 1 2 5;street 2 3 5;street 3 0 4;"
+                + "person 1 2 0 7;person 2 0 9 1;stranger 1 0 0;");
+        for (int h = 0; h <= 2; h++) {
+            due("hand: not round", round.hand(0, h, 0), 7 * (5 + 9 - 5));
+            due("hand: not round", round.hand(0, h, 1), 5);
+        }
+        // By 4 he would lose others 18 (h 1) or nothing (h 2); the way is 0 1 2 3.
+        String beside = "places 5;street 0 1 5;street 1 2 5;street 2 3 5;street 1 4 1;street 4 3 10;"
+                + "person 0 1 0 9;person 1 4 6 5;person 4 3 8 1;stranger 0 3 0;";
+        LedStrangers along = Checks.of(beside);
+        due("hand: beside, by one", along.hand(0, 0, 0), 180);
+        due("hand: beside, by one", along.hand(0, 0, 1), 15);
+        due("hand: beside, by two", along.hand(0, 1, 0), 95);
+        due("hand: beside, by two", along.hand(0, 1, 1), 16);
+        due("hand: beside, by three", along.hand(0, 2, 0), 95);
+        due("hand: beside, by three", along.hand(0, 2, 1), 16);
+        LedStrangers onIt = Checks.of(beside + "person 2 3 20 1;");
+        due("hand: on the way, by one", onIt.hand(0, 0, 0), 180);
+        due("hand: on the way, by one", onIt.hand(0, 0, 1), 15);
+        due("hand: on the way, by two", onIt.hand(0, 1, 0), 90);
+        due("hand: on the way, by two", onIt.hand(0, 1, 1), 25);
+        due("hand: on the way, by three", onIt.hand(0, 2, 0), 50);
+        due("hand: on the way, by three", onIt.hand(0, 2, 1), 25);
+        // By 1 and by 2 it is as far: the way goes by 1, the first.
+        String square = "street 0 1 5;street 0 2 5;street 1 3 5;street 2 3 5;stranger 0 3 0;";
+        LedStrangers second = Checks.of(square + "person 0 2 0 9;person 2 3 5 1;");
+        due("hand: as far, but not the way", second.hand(0, 1, 0), 90);
+        due("hand: as far, but not the way", second.hand(0, 2, 1), 10);
+        LedStrangers first = Checks.of(square + "person 0 1 0 9;person 1 3 7 1;");
+        due("hand: as far, and the way", first.hand(0, 1, 0), 0);
+        due("hand: as far, and the way", first.hand(0, 2, 1), 12);
+        // The run of issue 5.
+        LedStrangers told = Checks.of("places 3;street 0 1 60;street 0 2 1;street 1 2 60;person 0 2 0 99;"
+                + "person 2 1 1 1;stranger 0 1 0;");
+        due("hand: 60, not 61", told.hand(0, 1, 0), 11781);
+        due("hand: 60, not 61", told.hand(0, 2, 0), 11781);
+        due("hand: 60, not 61", told.hand(0, 2, 1), 60);
     }
 
     private static void promises21And22Signs() {
