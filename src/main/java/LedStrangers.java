@@ -144,7 +144,7 @@ public final class LedStrangers {
     public int way(int from, int to, int i) throws IndexOutOfBoundsException {
         checkPlace(from);
         checkPlace(to);
-        if (i < 0 || !town.streets.reaches(from, to)) {
+        if (i < 0 || i >= MOST_PLACES || !town.streets.reaches(from, to)) {
             return NONE;
         }
         int place = from;

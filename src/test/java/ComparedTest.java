@@ -7,6 +7,7 @@ import java.util.Random;
 public final class ComparedTest {
     private static final Checks CHECKS = new Checks("compared");
     private static final Random LOTS = new Random(20261118);
+    private static LedStrangers used = new LedStrangers();
 
     public static void main(String[] args) {
         for (int i = 0; i < 900 && CHECKS.allRight(); i++) {
@@ -86,8 +87,10 @@ public final class ComparedTest {
 
     // ---- all answers
 
+    /** Some objects read several towns, one behind the other. */
     private static void compareTown(String text, int number) {
-        LedStrangers x = new LedStrangers();
+        used = number % 6 == 0 ? new LedStrangers() : used;
+        LedStrangers x = used;
         PlainTown plain = PlainTown.read(Checks.bytes(text), text.length());
         due(text, "town", Checks.town(x, text), plain.faultKind == 0 ? plain.people.size() : plain.faultKind - 10);
         if (plain.faultKind != 0) {

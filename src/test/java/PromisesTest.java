@@ -24,6 +24,7 @@ public final class PromisesTest {
         promise1NewObject();
         promise2Feed();
         promise3Town();
+        promise3TownBehindTown();
         promise3FaultsOfWordsAndEnds();
         promise3FaultsOfNumbers();
         promise3FaultsOfTooMany();
@@ -151,6 +152,30 @@ public final class PromisesTest {
         due("town: the shortest street", x.far(0, 1), 3);
     }
 
+    /** Whatever an object has read before, a town is as on a new object. */
+    private static void promise3TownBehindTown() {
+        LedStrangers x = new LedStrangers();
+        String bare = "places 3;street 0 1 5;street 1 2 5;person 2 1 0 3;stranger 0 1 0;";
+        String full = bare + "not 0 1;finds 0 1;chance 0 1;sign 0 1;guide 0 4;law 2;stranger 0 2 0;stranger 2 0 0;";
+        for (int i = 0; i < 4; i++) {
+            due("town behind town: full", Checks.town(x, full), 1);
+            due("town behind town: full", x.day(0, 1), 0);
+            due("town behind town: matched", x.match(0), 1);
+            for (int k = 0; k <= i; k++) {
+                due("town behind town: bare", Checks.town(x, bare), 1);
+                due("town behind town: no sign, no guide", x.day(0, 1), 1);
+                due("town behind town: he finds nothing", x.day(3, 1), 1);
+                due("town behind town: he finds nothing", x.stranger(0, 4), 0);
+                due("town behind town: he comes", x.stranger(0, 3), 8);
+                due("town behind town: all is known", x.person(0, 4), 7);
+                due("town behind town: guides", x.told(3), 0);
+                due("town behind town: law", x.told(4), 0);
+                due("town behind town: matched", x.match(0), 1);
+                due("town behind town: lost", x.match(1), 3 * (10 + 5 - 5));
+            }
+        }
+    }
+
     private static void dueFault(String text, int kind, int place) {
         LedStrangers x = new LedStrangers();
         due("[" + text + "] town", Checks.town(x, text), kind - 10);
@@ -160,6 +185,13 @@ public final class PromisesTest {
     private static void promise3FaultsOfWordsAndEnds() {
         dueFault("laws 1;", 1, 0);
         dueFault("la", 1, 0);
+        dueFault("lawz 1;", 1, 0);
+        dueFault("alaw 1;", 1, 0);
+        dueFault("lawlaw 1;", 1, 0);
+        dueFault("law`1;", 1, 3);
+        dueFault("law{1;", 1, 3);
+        dueFault("law 1:", 1, 5);
+        dueFault("law 1/;", 1, 5);
         dueFault("  law", 1, 5);
         dueFault("law 1", 1, 5);
         dueFault("law 1  ", 1, 7);
@@ -466,6 +498,20 @@ public final class PromisesTest {
         LedStrangers last = Checks.of(LONG_ROW + "person 0 11 459 1;stranger 9 10 0;person 0 11 460 1;stranger 9 8 0;");
         due("end: in minute 999", last.leads(0, 0, 0), 0);
         due("end: in minute 1000", last.leads(0, 1, 0), -1);
+        String findsNine = "finds 0 1;finds 0 2;finds 0 3;finds 0 4;finds 0 5;finds 0 6;finds 0 7;finds 0 8;finds 0 9;";
+        LedStrangers waits = Checks.of(LONG_ROW + "stranger 0 11 459;" + findsNine);
+        due("end: at 9 in minute 999, where he waits", waits.day(3, 2), 1);
+        due("end: at 9 in minute 999, left", waits.there(3, 0), -1);
+        LedStrangers goesOn = Checks.of(LONG_ROW + "stranger 0 10 459;finds 0 10;" + findsNine);
+        due("end: at 9 in minute 999, goes on", goesOn.day(3, 2), 0);
+        due("end: at 9 in minute 999, goes on", goesOn.there(3, 0), 1059);
+        LedStrangers there = Checks.of(LONG_ROW + "stranger 0 9 459;" + findsNine);
+        due("end: there in minute 999", there.there(3, 0), 999);
+        due("end: there in minute 999", there.day(3, 4), 1);
+        LedStrangers late = Checks.of(LONG_ROW + "stranger 0 9 460;" + findsNine);
+        due("end: there in minute 1000", late.there(3, 0), 1000);
+        due("end: there in minute 1000", late.day(3, 4), 0);
+        due("end: there in minute 1000, not left", late.day(3, 1), 0);
         LedStrangers intime = Checks.of("places 2;street 0 1 60;street 0 1 5;stranger 0 1 0;guide 0 0;");
         due("end: there in time", intime.day(0, 4), 1);
     }
@@ -699,6 +745,13 @@ public final class PromisesTest {
         due("corner: nine", x.corner(9), 180);
         due("other", x.other(), 1);
         due("corner: the law stays", x.told(4), 9);
+        // By 1 and 3 the dear one at 3 is asked, by 9 nobody loses; by all others one leads on past his errand.
+        LedStrangers nine = Checks.of(LONG_ROW.replace(" 60;", " 5;") + "person 3 2 15 99;person 9 11 45 1;"
+                + "person 0 9 0 1;stranger 0 11 0;law 5;");
+        due("corner: three places, the dear one", nine.corner(3), 99 * 80);
+        due("corner: eight places, then past 9", nine.corner(8), 20);
+        due("corner: nine places", nine.corner(9), 0);
+        due("other: the last", nine.other(), 9);
         due("other: of all alike the least", Checks.of(ONE_LED + "law 4;").other(), 0);
         CHECKS.dueThrow("corner(10)", ILLEGAL, () -> x.corner(10));
         CHECKS.dueThrow("corner(-1)", ILLEGAL, () -> x.corner(-1));
