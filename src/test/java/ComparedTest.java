@@ -126,11 +126,11 @@ public final class ComparedTest {
     }
 
     private static void compareWays(LedStrangers x, PlainTown plain, String text) {
-        due(text, "told(0)", x.told(0), plain.places);
-        due(text, "told(1)", x.told(1), plain.people.size());
-        due(text, "told(2)", x.told(2), plain.strangers.size());
-        due(text, "told(3)", x.told(3), plain.guides.size());
-        due(text, "told(4)", x.told(4), plain.law);
+        due(text, "told 0", x.told(0), plain.places);
+        due(text, "told 1", x.told(1), plain.people.size());
+        due(text, "told 2", x.told(2), plain.strangers.size());
+        due(text, "told 3", x.told(3), plain.guides.size());
+        due(text, "told 4", x.told(4), plain.law);
         for (int a = 0; a < plain.places; a++) {
             for (int b = 0; b < plain.places; b++) {
                 due(text, "far " + a + " " + b, x.far(a, b), plain.far(a, b));
@@ -316,6 +316,9 @@ public final class ComparedTest {
     }
 
     private static void due(String text, String call, long got, long want) {
+        if (got != want) {
+            CHECKS.aboutCall(call);
+        }
         CHECKS.due(got == want ? "" : "[" + text + "] " + call, got, want);
     }
 }

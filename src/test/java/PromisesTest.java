@@ -7,18 +7,14 @@ public final class PromisesTest {
     private static final Class<IndexOutOfBoundsException> NO_PLACE = IndexOutOfBoundsException.class;
     private static final Class<NoSuchElementException> NOBODY = NoSuchElementException.class;
 
-    /** Four places in a row, five minutes apart. */
-    private static final String ROW = "places 4;street 0 1 5;street 1 2 5;street 2 3 5;";
+    private static final String ROW = Checks.ROW;
+    private static final String LONG_ROW = Checks.LONG_ROW;
 
     private static final String ONE_LED = ROW + "person 0 2 0 2;stranger 1 3 3;";
 
     /** At place 1 in minute 5 there are two people, one of them dear, and a guide. */
     private static final String THREE_CAN = "places 3;street 0 1 5;street 1 2 5;person 0 1 0 9;person 0 1 0 2;"
             + "stranger 1 2 5;guide 1 1;";
-
-    /** Twelve places in a row, an hour apart: errands and strangers reach behind the last minute. */
-    private static final String LONG_ROW = "places 12;street 0 1 60;street 1 2 60;street 2 3 60;street 3 4 60;"
-            + "street 4 5 60;street 5 6 60;street 6 7 60;street 7 8 60;street 8 9 60;street 9 10 60;street 10 11 60;";
 
     public static void main(String[] args) {
         promise1NewObject();
@@ -64,6 +60,7 @@ public final class PromisesTest {
     }
 
     private static void promise1NewObject() {
+        CHECKS.about("promise 1");
         LedStrangers x = new LedStrangers();
         due("new: NONE", LedStrangers.NONE, -1);
         due("new: places", x.told(0), 4);
@@ -86,6 +83,7 @@ public final class PromisesTest {
     }
 
     private static void promise2Feed() {
+        CHECKS.about("promise 2");
         LedStrangers x = new LedStrangers();
         // "law 7;" with the highest byte first.
         due("feed", x.feed(0x6c617720, 0x373b0000, 0, 0, 0), 20);
@@ -106,6 +104,7 @@ public final class PromisesTest {
     }
 
     private static void promise3Town() {
+        CHECKS.about("promise 3");
         LedStrangers x = new LedStrangers();
         due("town: people", Checks.town(x, ONE_LED), 1);
         due("town: empties the tape", x.count(1), 0);
@@ -154,6 +153,7 @@ public final class PromisesTest {
 
     /** Whatever an object has read before, a town is as on a new object. */
     private static void promise3TownBehindTown() {
+        CHECKS.about("promise 3");
         LedStrangers x = new LedStrangers();
         String bare = "places 3;street 0 1 5;street 1 2 5;person 2 1 0 3;stranger 0 1 0;";
         String full = bare + "not 0 1;finds 0 1;chance 0 1;sign 0 1;guide 0 4;law 2;stranger 0 2 0;stranger 2 0 0;";
@@ -183,6 +183,7 @@ public final class PromisesTest {
     }
 
     private static void promise3FaultsOfWordsAndEnds() {
+        CHECKS.about("promise 3");
         dueFault("laws 1;", 1, 0);
         dueFault("la", 1, 0);
         dueFault("lawz 1;", 1, 0);
@@ -213,6 +214,7 @@ public final class PromisesTest {
     }
 
     private static void promise3FaultsOfNumbers() {
+        CHECKS.about("promise 3");
         dueFault("places 1;", 2, 7);
         dueFault("places 13;", 2, 7);
         dueFault("places 4294967300;", 2, 7);
@@ -246,6 +248,7 @@ public final class PromisesTest {
     }
 
     private static void promise3FaultsOfTooMany() {
+        CHECKS.about("promise 3");
         dueFault("street 0 1 1;".repeat(21), 3, 260);
         dueFault("person 0 1 0 1;".repeat(11), 3, 150);
         dueFault("stranger 0 1 0;".repeat(9), 3, 120);
@@ -269,6 +272,7 @@ public final class PromisesTest {
     }
 
     private static void promise4Fault() {
+        CHECKS.about("promise 4");
         LedStrangers x = new LedStrangers();
         due("fault: none", x.fault(), -1);
         Checks.town(x, "law 1;oops");
@@ -280,6 +284,7 @@ public final class PromisesTest {
     }
 
     private static void promise5Told() {
+        CHECKS.about("promise 5");
         LedStrangers x = Checks.of("places 7;person 0 1 0 1;person 1 0 0 1;stranger 0 1 0;stranger 0 1 0;"
                 + "stranger 0 1 0;guide 0 1;law 5;");
         int[] want = {7, 2, 3, 1, 5};
@@ -291,6 +296,7 @@ public final class PromisesTest {
     }
 
     private static void promises6And7FarAndWay() {
+        CHECKS.about("promises 6 and 7");
         // From 0 to 4 by 3, by 2 then 3, or by 1: all seven minutes.
         LedStrangers x = Checks.of("places 6;street 0 3 3;street 3 4 4;street 0 2 1;street 2 3 2;street 0 1 5;"
                 + "street 1 4 2;street 0 4 8;");
@@ -322,6 +328,7 @@ public final class PromisesTest {
     }
 
     private static void promise8Person() {
+        CHECKS.about("promise 8");
         LedStrangers x = Checks.of(ROW + "person 3 1 500 99;not 0 2;not 0 0;not 0 2;");
         int[] want = {3, 1, 500, 99, 0b1010, 510};
         for (int what = 0; what < 6; what++) {
@@ -338,6 +345,7 @@ public final class PromisesTest {
     }
 
     private static void promise9Stranger() {
+        CHECKS.about("promise 9");
         LedStrangers x = Checks.of("stranger 3 1 500;stranger 0 2 7;finds 1 3;finds 1 0;chance 1 2;");
         int[] first = {3, 1, 500, 8, 0};
         int[] second = {0, 2, 7, 2, 0b1001};
@@ -353,6 +361,7 @@ public final class PromisesTest {
     }
 
     private static void promise10Tell() {
+        CHECKS.about("promise 10");
         LedStrangers x = Checks.of(THREE_CAN);
         due("tell: nobody at first", x.tell(0, 1), -1);
         due("tell: who was", x.tell(0, 0), 1);
@@ -367,6 +376,7 @@ public final class PromisesTest {
     }
 
     private static void promise11DayByKinds() {
+        CHECKS.about("promise 11");
         LedStrangers x = Checks.of(THREE_CAN);
         x.tell(0, 1);
         int[] cost = {90, 20, 10, 90, 20};
@@ -395,6 +405,7 @@ public final class PromisesTest {
     }
 
     private static void promise11DayBySigns() {
+        CHECKS.about("promise 11");
         LedStrangers x = Checks.of(ROW + "sign 0 3;person 0 1 0 1;stranger 0 3 0;stranger 0 2 0;guide 0 1;");
         for (int kind = 0; kind < 3; kind++) {
             due("sign: he goes alone", x.leads(kind, 0, 0), -1);
@@ -412,6 +423,7 @@ public final class PromisesTest {
     }
 
     private static void promise11DayByLaw() {
+        CHECKS.about("promise 11");
         LedStrangers x = Checks.of(ROW + "person 0 1 0 3;law 1;stranger 0 3 0;");
         // The same person is there again where he leaves him: 5, 10, 15, then back to 1 in minute 25.
         due("law: cost", x.day(0, 0), 60);
@@ -440,6 +452,7 @@ public final class PromisesTest {
     }
 
     private static void promise11DayByHalf() {
+        CHECKS.about("promise 11");
         LedStrangers x = Checks.of(ROW + "person 0 2 0 2;stranger 1 3 3;finds 0 2;");
         due("half: cost", x.day(3, 0), 20);
         due("half: waited", x.day(3, 2), 2);
@@ -458,6 +471,7 @@ public final class PromisesTest {
     }
 
     private static void promise11DayOfMeetings() {
+        CHECKS.about("promise 11");
         LedStrangers missed = Checks.of(ROW + "person 0 2 0 2;stranger 1 3 6;");
         due("meeting: a minute late", missed.day(0, 1), 1);
         due("meeting: a minute late", missed.day(0, 2), 994);
@@ -485,6 +499,7 @@ public final class PromisesTest {
     }
 
     private static void promise11DayToItsEnd() {
+        CHECKS.about("promise 11");
         LedStrangers x = Checks.of(LONG_ROW + "person 0 11 500 1;stranger 8 11 0;stranger 9 11 0;");
         due("end: led in minute 980", x.there(0, 0), 1160);
         due("end: begun in time", x.day(0, 1), 1);
@@ -517,6 +532,7 @@ public final class PromisesTest {
     }
 
     private static void promises12To15OfOneDay() {
+        CHECKS.about("promises 12 to 15");
         LedStrangers x = Checks.of(THREE_CAN);
         due("leads: none such", x.leads(0, 0, 1), -1);
         due("leads: none such", x.leads(0, 0, -1), -1);
@@ -547,6 +563,7 @@ public final class PromisesTest {
     }
 
     private static void promise16Judge() {
+        CHECKS.about("promise 16");
         LedStrangers x = Checks.of(ROW + "person 0 3 0 1;person 3 0 0 1;stranger 1 3 0;stranger 2 0 0;"
                 + "stranger 3 0 0;sign 3 0;not 1 0;");
         due("judge: nobody told", x.judge(0), 0);
@@ -567,6 +584,7 @@ public final class PromisesTest {
     }
 
     private static void promises17And18Match() {
+        CHECKS.about("promises 17 and 18");
         LedStrangers x = Checks.of(ROW + "person 0 3 500 1;person 0 3 0 1;stranger 1 2 0;stranger 1 2 0;");
         due("match: the first", x.matched(0), 0);
         due("match: the first", x.matched(1), 1);
@@ -598,6 +616,7 @@ public final class PromisesTest {
     }
 
     private static void promise19Bound() {
+        CHECKS.about("promise 19");
         // One person is the least for both strangers; the match needs the dear one too.
         LedStrangers x = Checks.of(ROW + "person 0 1 0 9;person 0 1 0 1;stranger 1 2 0;stranger 1 2 0;stranger 1 3 0;"
                 + "not 0 3;not 1 3;");
@@ -607,6 +626,7 @@ public final class PromisesTest {
     }
 
     private static void promise20Hand() {
+        CHECKS.about("promise 20");
         String row = "places 5;street 0 1 5;street 1 2 5;street 2 3 5;street 3 4 5;";
         LedStrangers x = Checks.of(row + "person 0 2 0 9;person 2 3 10 1;person 3 4 20 1;stranger 0 4 0;law 1;");
         due("hand: by one", x.hand(0, 0, 0), 180);
@@ -635,6 +655,7 @@ public final class PromisesTest {
 
     /** Handed on along the way to where he is bound, and nowhere else. */
     private static void promise20HandAlongTheWay() {
+        CHECKS.about("promise 20");
         // Who goes to 2 anyway would lose nothing by it, but 2 is no place of the way from 1 to 0.
         LedStrangers round = Checks.of("street 0 1 5;street 1 2 5;street 2 3 5;street 3 0 4;"
                 + "person 1 2 0 7;person 2 0 9 1;stranger 1 0 0;");
@@ -676,6 +697,7 @@ public final class PromisesTest {
     }
 
     private static void promises21And22Signs() {
+        CHECKS.about("promises 21 and 22");
         LedStrangers x = Checks.of(ONE_LED + "stranger 2 3 0;");
         // The first is led past 2 to 3; back at 2 in minute 20 the person is asked by the second.
         due("saves: before", x.day(0, 0), 40);
@@ -702,6 +724,7 @@ public final class PromisesTest {
     }
 
     private static void promises23And24Guides() {
+        CHECKS.about("promises 23 and 24");
         LedStrangers x = Checks.of(ONE_LED);
         due("where: for nothing", x.where(0, 0), 1);
         due("where: for nothing", x.where(0, 1), 0);
@@ -737,6 +760,7 @@ public final class PromisesTest {
     }
 
     private static void promises25And26Laws() {
+        CHECKS.about("promises 25 and 26");
         // By the law 1 the dear one leads to 1, where the other, who has the lesser number, leads on.
         LedStrangers x = Checks.of(ROW + "law 9;person 1 3 5 1;person 0 1 0 9;stranger 0 3 0;");
         due("corner: all the way", x.corner(0), 180);
@@ -758,6 +782,7 @@ public final class PromisesTest {
     }
 
     private static void promise27Rest() {
+        CHECKS.about("promise 27");
         LedStrangers x = Checks.of(ROW + "person 0 1 0 2;person 0 1 0 5;stranger 1 2 0;guide 1 9;");
         // Nobody is asked but the guide, in minute 0.
         due("rest: guides lose as before", x.rest(0), 0);
@@ -781,6 +806,7 @@ public final class PromisesTest {
     }
 
     private static void promise28Avoid() {
+        CHECKS.about("promise 28");
         LedStrangers x = Checks.of("places 5;street 0 1 5;street 1 2 5;street 0 3 20;street 3 2 30;street 0 2 60;"
                 + "person 0 2 0 1;person 1 2 0 1;person 2 1 0 1;person 0 4 0 1;stranger 1 0 500;stranger 2 0 0;");
         due("avoid: round by 3", x.avoid(0), 50);
@@ -794,6 +820,7 @@ public final class PromisesTest {
     }
 
     private static void promises29And30Learning() {
+        CHECKS.about("promises 29 and 30");
         // All three but the first ask for 0 on the first day; only the first knew it.
         LedStrangers x = Checks.of("places 3;person 0 1 0 1;person 0 1 0 1;person 0 1 0 1;not 1 0;not 2 0;not 2 1;");
         int[] want = {6, 7, 9, 9, 9};
@@ -819,6 +846,7 @@ public final class PromisesTest {
     }
 
     private static void promise31Seed() {
+        CHECKS.about("promise 31");
         // From the seed 1 on the draws are 6, 6, 1; the third stranger takes none.
         LedStrangers x = Checks.of("places 2;street 0 1 5;stranger 0 1 0;stranger 0 1 0;stranger 0 1 0;stranger 0 1 0;"
                 + "chance 0 7;chance 1 6;chance 3 2;guide 0 1;guide 0 2;person 1 0 0 1;");
@@ -841,6 +869,7 @@ public final class PromisesTest {
     }
 
     private static void promise32Mean() {
+        CHECKS.about("promise 32");
         LedStrangers x = Checks.of("places 2;street 0 1 5;stranger 0 1 0;chance 0 6;guide 0 1;");
         // Seed 0 draws 0, seed 1 draws 6: a cost of 10, then of 0.
         due("mean: of one", x.mean(0, 1), 10);
@@ -858,6 +887,7 @@ public final class PromisesTest {
     }
 
     private static void promises33And34Images() {
+        CHECKS.about("promises 33 and 34");
         LedStrangers x = Checks.of(THREE_CAN);
         due("image", x.image(), 1);
         x.tell(0, 0);
@@ -881,6 +911,7 @@ public final class PromisesTest {
     }
 
     private static void promise35Count() {
+        CHECKS.about("promise 35");
         LedStrangers x = Checks.of(ONE_LED);
         x.image();
         x.image();
