@@ -373,7 +373,6 @@ public final class LedStrangers {
         checkPerson(person);
         goThrough(FIRST);
         int othersBefore = course.cost() - course.lostBy(person);
-        setting.copyFrom(town, toldPeople);
         setting.resting = person;
         course.run(town, setting, FIRST);
         return othersBefore - course.cost();

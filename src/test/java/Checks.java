@@ -177,6 +177,29 @@ final class Checks {
         return all.toString();
     }
 
+    /** What a town answers to all that can be asked of it, to see that two objects have the same town. */
+    static String answers(LedStrangers x) {
+        StringBuilder all = new StringBuilder(state(x));
+        int strangers = x.told(2);
+        int people = x.told(1);
+        all.append(" match ").append(x.match(0)).append(' ').append(x.match(1)).append(" bound ").append(x.bound());
+        for (int s = 0; s < strangers; s++) {
+            all.append(" of ").append(s).append(' ').append(x.matched(s)).append(' ').append(x.hand(s, 1, 0));
+            for (int kind = 0; kind < 4; kind++) {
+                all.append(' ').append(x.leads(kind, s, 0)).append(' ').append(x.there(kind, s));
+            }
+        }
+        for (int p = 0; p < people; p++) {
+            all.append(" rest ").append(x.rest(p)).append(" avoid ").append(x.avoid(p));
+        }
+        for (int z = 0; z < x.told(0); z++) {
+            all.append(" saves ").append(x.saves(z));
+        }
+        all.append(" where ").append(x.where(1, 0)).append(" many ").append(x.many(0, 1)).append(" law ").append(x.corner(1));
+        all.append(" learn ").append(x.learn(2)).append(" soon ").append(x.soon()).append(" seed ").append(x.seed(0, 1, 2));
+        return all.toString();
+    }
+
     void dueSame(String what, String got, String want) {
         made++;
         if (!got.equals(want)) {

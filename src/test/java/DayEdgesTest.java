@@ -1,19 +1,7 @@
-import java.util.NoSuchElementException;
-
 /** Promises 11 to 16, and what the terms say of a day: each sentence that has an edge, by itself. */
-public final class DayEdgesTest {
-    private static final Checks CHECKS = new Checks("edges of the day");
-    private static final Class<IllegalArgumentException> ILLEGAL = IllegalArgumentException.class;
-    private static final Class<NoSuchElementException> NOBODY = NoSuchElementException.class;
-    private static final String ROW = Checks.ROW;
-    private static final String LONG_ROW = Checks.LONG_ROW;
-
-    /** Twelve places in a row, five minutes apart. */
-    private static final String SHORT_STREETS = LONG_ROW.replace(" 60;", " 5;");
-
-    private static final String TWO = "places 2;street 0 1 5;";
-
+public final class DayEdgesTest extends Edges {
     public static void main(String[] args) {
+        begin("edges of the day");
         promise11AtHome();
         promise11AtEachPlace();
         promise11WithoutWay();
@@ -27,6 +15,7 @@ public final class DayEdgesTest {
         promise11Half();
         promise11WhoKnows();
         promise11WhoLeadsNobody();
+        promise11NobodyOfManyCan();
         promise11GuidesWithAWay();
         promise11FirstKind();
         promise11ChooseKind();
@@ -55,15 +44,7 @@ public final class DayEdgesTest {
         promise15Fees();
         promise16Judge();
         promise16Refused();
-        CHECKS.end();
-    }
-
-    private static void says(int promise, String words) {
-        CHECKS.says(promise, words);
-    }
-
-    private static void due(String call, long got, long want) {
-        CHECKS.due(call, got, want);
+        end();
     }
 
     private static void dueThere(String text, int minute) {
@@ -252,6 +233,27 @@ public final class DayEdgesTest {
         due("where he leaves one, on his own WAY", left.day(0, 0), 0);
         LedStrangers apart = Checks.of("street 0 1 5;street 2 3 5;person 0 1 0 1;stranger 0 2 0;");
         due("no WAY to Y", apart.there(0, 0), -1);
+    }
+
+    private static void promise11NobodyOfManyCan() {
+        says(11, "Who can lead");
+        StringBuilder text = new StringBuilder(TWO + "person 0 1 0 1;".repeat(10) + "stranger 0 1 0;".repeat(8));
+        for (int p = 0; p < 10; p++) {
+            text.append("not ").append(p).append(" 1;");
+        }
+        text.append("guide 1 1;".repeat(4));
+        LedStrangers x = Checks.of(text.toString());
+        for (int kind = 0; kind < 5; kind++) {
+            due("left by kind " + kind, x.day(kind, 1), 8);
+            due("waited by kind " + kind, x.day(kind, 2), 8000);
+            due("cost by kind " + kind, x.day(kind, 0), 0);
+        }
+        // Nine are there in another minute, or elsewhere; the tenth is there.
+        LedStrangers last = Checks.of(TWO + "person 0 1 1 1;".repeat(5) + "person 1 0 2 1;".repeat(4)
+                + "person 0 1 0 1;stranger 0 1 0;");
+        for (int kind = 0; kind < 4; kind++) {
+            due("the last by kind " + kind, last.leads(kind, 0, 0), 9);
+        }
     }
 
     private static void promise11GuidesWithAWay() {
@@ -491,9 +493,9 @@ public final class DayEdgesTest {
     private static void promise11Refused() {
         says(11, "`int day(int kind, int what) throws IllegalArgumentException`");
         LedStrangers x = Checks.of(ROW + "person 1 0 2 2;stranger 1 3 0;");
-        CHECKS.dueBetween("day, kind", ILLEGAL, 0, 4, kind -> x.day(kind, 0));
-        CHECKS.dueBetween("day, what", ILLEGAL, 0, 4, what -> x.day(4, what));
-        CHECKS.dueThrow("day(5, 5)", ILLEGAL, () -> x.day(5, 5));
+        dueBetween("day, kind", ILLEGAL, 0, 4, kind -> x.day(kind, 0));
+        dueBetween("day, what", ILLEGAL, 0, 4, what -> x.day(4, what));
+        dueThrow("day(5, 5)", ILLEGAL, () -> x.day(5, 5));
     }
 
     // ---- promises 12 to 16
@@ -537,9 +539,9 @@ public final class DayEdgesTest {
     private static void promise12Refused() {
         says(12, "`int leads(int kind, int stranger, int i) throws NoSuchElementException, IllegalArgumentException`");
         LedStrangers x = Checks.of(TWO + "person 0 1 0 1;stranger 0 1 0;stranger 0 1 0;");
-        CHECKS.dueBetween("leads, kind", ILLEGAL, 0, 4, kind -> x.leads(kind, 0, 0));
-        CHECKS.dueBetween("leads, kind, where there is no i", ILLEGAL, 0, 4, kind -> x.leads(kind, 0, -1));
-        CHECKS.dueBetween("leads, stranger", NOBODY, 0, 1, s -> x.leads(4, s, 0));
+        dueBetween("leads, kind", ILLEGAL, 0, 4, kind -> x.leads(kind, 0, 0));
+        dueBetween("leads, kind, where there is no i", ILLEGAL, 0, 4, kind -> x.leads(kind, 0, -1));
+        dueBetween("leads, stranger", NOBODY, 0, 1, s -> x.leads(4, s, 0));
     }
 
     private static void promise13There() {
@@ -563,10 +565,10 @@ public final class DayEdgesTest {
     private static void promise13Refused() {
         says(13, "`int there(int kind, int stranger) throws NoSuchElementException, IllegalArgumentException`");
         LedStrangers x = Checks.of("stranger 0 1 0;".repeat(8));
-        CHECKS.dueBetween("there, kind", ILLEGAL, 0, 4, kind -> x.there(kind, 7));
-        CHECKS.dueBetween("there, stranger", NOBODY, 0, 7, s -> x.there(0, s));
+        dueBetween("there, kind", ILLEGAL, 0, 4, kind -> x.there(kind, 7));
+        dueBetween("there, stranger", NOBODY, 0, 7, s -> x.there(0, s));
         LedStrangers none = Checks.of("person 0 1 0 1;");
-        CHECKS.dueThrow("there without any", NOBODY, () -> none.there(0, 0));
+        dueThrow("there without any", NOBODY, () -> none.there(0, 0));
     }
 
     private static void promise14Lost() {
@@ -576,11 +578,11 @@ public final class DayEdgesTest {
             due("who leads on his own WAY", x.lost(kind, 0), 0);
             due("who never goes", x.lost(kind, 9), 0);
         }
-        CHECKS.says(14, "`int lost(int kind, int person) throws NoSuchElementException, IllegalArgumentException`");
-        CHECKS.dueBetween("lost, kind", ILLEGAL, 0, 4, kind -> x.lost(kind, 9));
-        CHECKS.dueBetween("lost, person", NOBODY, 0, 9, p -> x.lost(0, p));
+        says(14, "`int lost(int kind, int person) throws NoSuchElementException, IllegalArgumentException`");
+        dueBetween("lost, kind", ILLEGAL, 0, 4, kind -> x.lost(kind, 9));
+        dueBetween("lost, person", NOBODY, 0, 9, p -> x.lost(0, p));
         LedStrangers none = Checks.of("stranger 0 1 0;");
-        CHECKS.dueThrow("lost without any", NOBODY, () -> none.lost(0, 0));
+        dueThrow("lost without any", NOBODY, () -> none.lost(0, 0));
     }
 
     private static void promise15Fees() {
@@ -593,8 +595,8 @@ public final class DayEdgesTest {
         }
         due("PEOPLE get nothing of it", x.day(0, 0) - x.fees(0), 30);
         due("none", Checks.of(ROW + "guide 3 9;person 0 1 0 3;stranger 1 2 5;").fees(0), 0);
-        CHECKS.says(15, "`int fees(int kind) throws IllegalArgumentException`");
-        CHECKS.dueBetween("fees, kind", ILLEGAL, 0, 4, x::fees);
+        says(15, "`int fees(int kind) throws IllegalArgumentException`");
+        dueBetween("fees, kind", ILLEGAL, 0, 4, x::fees);
     }
 
     private static void promise16Judge() {
@@ -635,6 +637,6 @@ public final class DayEdgesTest {
     private static void promise16Refused() {
         says(16, "`int judge(int what) throws IllegalArgumentException`");
         LedStrangers x = Checks.of(TWO + "person 0 1 0 1;stranger 0 1 0;");
-        CHECKS.dueBetween("judge", ILLEGAL, 0, 1, x::judge);
+        dueBetween("judge", ILLEGAL, 0, 1, x::judge);
     }
 }

@@ -26,7 +26,9 @@ public final class FaceTest {
         "instanceof", "static {", "System.out", "System.nano", "System.current", "Random", "Thread", "package "};
 
     public static void main(String[] args) throws Exception {
+        CHECKS.about("promises 1 to 35, the public face");
         membersAreTheFace();
+        CHECKS.about("LANGUAGE.md");
         classesInsideKeepTheRules();
         sourceKeepsTheRules();
         callsMakeNoObjects();

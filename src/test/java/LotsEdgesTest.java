@@ -1,10 +1,5 @@
 /** Promises 29 to 35: learning, lots, images and counts: each sentence that has an edge, by itself. */
-public final class LotsEdgesTest {
-    private static final Checks CHECKS = new Checks("edges of lots");
-    private static final Class<IllegalArgumentException> ILLEGAL = IllegalArgumentException.class;
-    private static final String ROW = Checks.ROW;
-    private static final String TWO = "places 2;street 0 1 5;";
-
+public final class LotsEdgesTest extends Edges {
     /** Seeds whose first draw is 0, 1, .. 7. */
     private static final int[] SEEDS = {0, 4, 8, 3, 2, 11, 1, 5};
     private static final int[] SEEDS_BELOW_ZERO = {-5, -1, -6, -2, -7, -3, -4, -9};
@@ -13,6 +8,7 @@ public final class LotsEdgesTest {
     private static final int[] DRAWS_OF_1 = {6, 6, 1, 3, 3, 3, 2, 3};
 
     public static void main(String[] args) {
+        begin("edges of lots");
         promise29ByNumber();
         promise29TheLeastSuch();
         promise29InTheMorning();
@@ -39,15 +35,7 @@ public final class LotsEdgesTest {
         promise34None();
         promise35Count();
         allCallsOfOneObject();
-        CHECKS.end();
-    }
-
-    private static void says(int promise, String words) {
-        CHECKS.says(promise, words);
-    }
-
-    private static void due(String call, long got, long want) {
-        CHECKS.due(call, got, want);
+        end();
     }
 
     private static void dueLearn(String text, int... known) {
@@ -119,14 +107,14 @@ public final class LotsEdgesTest {
     private static void promise29Days() {
         says(29, "behind so many DAYS (0 to 99)");
         LedStrangers x = Checks.of("places 2;person 0 1 0 1;person 0 1 0 1;not 1 0;");
-        CHECKS.dueBetween("learn", ILLEGAL, 0, 99, x::learn);
+        dueBetween("learn", ILLEGAL, 0, 99, x::learn);
         due("none", x.learn(0), 3);
         due("one", x.learn(1), 4);
         due("99", x.learn(99), 4);
         due("nothing of it stays", x.learn(0), 3);
         due("nothing of it stays", x.person(1, 4), 2);
         LedStrangers bare = new LedStrangers();
-        CHECKS.dueRefused("learn without PEOPLE", ILLEGAL, new int[] {-1, 100}, bare::learn);
+        dueRefused("learn without PEOPLE", ILLEGAL, new int[] {-1, 100}, bare::learn);
     }
 
     private static void promise30Soon() {
@@ -241,11 +229,11 @@ public final class LotsEdgesTest {
     private static void promise31Refused() {
         says(31, "`int seed(int kind, int seed, int what) throws IllegalArgumentException`");
         LedStrangers x = Checks.of(TWO + "stranger 0 1 0;");
-        CHECKS.dueBetween("seed, kind", ILLEGAL, 0, 4, kind -> x.seed(kind, 0, 0));
-        CHECKS.dueBetween("seed, what", ILLEGAL, 0, 2, what -> x.seed(0, 0, what));
+        dueBetween("seed, kind", ILLEGAL, 0, 4, kind -> x.seed(kind, 0, 0));
+        dueBetween("seed, what", ILLEGAL, 0, 2, what -> x.seed(0, 0, what));
         int[] any = {0, 1, -1, Integer.MAX_VALUE, Integer.MIN_VALUE};
         for (int seed : any) {
-            CHECKS.dueNoThrow("any seed", () -> x.seed(4, seed, 2));
+            dueNoThrow("any seed", () -> x.seed(4, seed, 2));
         }
     }
 
@@ -261,7 +249,7 @@ public final class LotsEdgesTest {
         due("of ten", x.mean(0, 10), 18);
         due("of 99", x.mean(0, 99), 13 * 90 / 99);
         due("of eight, none of which draws 0", Checks.of(TWO + "stranger 0 1 0;chance 0 1;guide 0 1;").mean(1, 8), 0);
-        LedStrangers dear = Checks.of(Checks.LONG_ROW + "person 0 1 0 99;".repeat(8) + "stranger 0 11 0;".repeat(8));
+        LedStrangers dear = Checks.of(LONG_ROW + "person 0 1 0 99;".repeat(8) + "stranger 0 11 0;".repeat(8));
         due("of much", dear.mean(0, 99), 8 * 99 * 1200);
     }
 
@@ -284,9 +272,9 @@ public final class LotsEdgesTest {
     private static void promise32Refused() {
         says(32, "`int mean(int seed, int many) throws IllegalArgumentException`");
         LedStrangers x = Checks.of(TWO + "stranger 0 1 0;");
-        CHECKS.dueBetween("mean, many", ILLEGAL, 1, 99, many -> x.mean(5, many));
+        dueBetween("mean, many", ILLEGAL, 1, 99, many -> x.mean(5, many));
         LedStrangers bare = new LedStrangers();
-        CHECKS.dueRefused("mean of a new object", ILLEGAL, new int[] {0, -1, 100}, many -> bare.mean(0, many));
+        dueRefused("mean of a new object", ILLEGAL, new int[] {0, -1, 100}, many -> bare.mean(0, many));
     }
 
     // ---- promises 33 to 35

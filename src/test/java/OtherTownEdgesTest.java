@@ -1,17 +1,7 @@
-import java.util.NoSuchElementException;
-
 /** Promises 21 to 28: signs, guides, laws, people who rest, ways round: each sentence that has an edge, by itself. */
-public final class OtherTownEdgesTest {
-    private static final Checks CHECKS = new Checks("edges of other towns");
-    private static final Class<IllegalArgumentException> ILLEGAL = IllegalArgumentException.class;
-    private static final Class<IndexOutOfBoundsException> NO_PLACE = IndexOutOfBoundsException.class;
-    private static final Class<NoSuchElementException> NOBODY = NoSuchElementException.class;
-    private static final String ROW = Checks.ROW;
-    private static final String LONG_ROW = Checks.LONG_ROW;
-    private static final String SHORT_STREETS = LONG_ROW.replace(" 60;", " 5;");
-    private static final String TWO = "places 2;street 0 1 5;";
-
+public final class OtherTownEdgesTest extends Edges {
     public static void main(String[] args) {
+        begin("edges of other towns");
         promise21TellsAll();
         promise21AsByFirst();
         promise21HowMuchLess();
@@ -35,15 +25,7 @@ public final class OtherTownEdgesTest {
         promise28NoSuchWay();
         promise28Refused();
         townStays();
-        CHECKS.end();
-    }
-
-    private static void says(int promise, String words) {
-        CHECKS.says(promise, words);
-    }
-
-    private static void due(String call, long got, long want) {
-        CHECKS.due(call, got, want);
+        end();
     }
 
     // ---- promises 21 and 22
@@ -88,9 +70,9 @@ public final class OtherTownEdgesTest {
     private static void promise21Refused() {
         says(21, "`int saves(int place) throws IndexOutOfBoundsException`");
         LedStrangers two = Checks.of(TWO);
-        CHECKS.dueBetween("saves of two", NO_PLACE, 0, 1, two::saves);
+        dueBetween("saves of two", NO_PLACE, 0, 1, two::saves);
         LedStrangers twelve = Checks.of(LONG_ROW);
-        CHECKS.dueBetween("saves of twelve", NO_PLACE, 0, 11, twelve::saves);
+        dueBetween("saves of twelve", NO_PLACE, 0, 11, twelve::saves);
     }
 
     private static void promise22Which() {
@@ -145,8 +127,8 @@ public final class OtherTownEdgesTest {
     private static void promise23Refused() {
         says(23, "IllegalArgumentException: F (0 to 9), what (so of the next).");
         LedStrangers x = Checks.of(TWO + "stranger 0 1 0;");
-        CHECKS.dueBetween("where, fee", ILLEGAL, 0, 9, fee -> x.where(fee, 0));
-        CHECKS.dueBetween("where, what", ILLEGAL, 0, 1, what -> x.where(0, what));
+        dueBetween("where, fee", ILLEGAL, 0, 9, fee -> x.where(fee, 0));
+        dueBetween("where, what", ILLEGAL, 0, 1, what -> x.where(0, what));
     }
 
     private static void promise24Many() {
@@ -192,8 +174,8 @@ public final class OtherTownEdgesTest {
     private static void promise24Refused() {
         says(24, "`int many(int fee, int what) throws IllegalArgumentException`");
         LedStrangers x = Checks.of(TWO + "stranger 0 1 0;");
-        CHECKS.dueBetween("many, fee", ILLEGAL, 0, 9, fee -> x.many(fee, 0));
-        CHECKS.dueBetween("many, what", ILLEGAL, 0, 1, what -> x.many(9, what));
+        dueBetween("many, fee", ILLEGAL, 0, 9, fee -> x.many(fee, 0));
+        dueBetween("many, what", ILLEGAL, 0, 1, what -> x.many(9, what));
     }
 
     // ---- promises 25 and 26
@@ -215,22 +197,26 @@ public final class OtherTownEdgesTest {
     private static void promise25Refused() {
         says(25, "CORNER: the COST. IllegalArgumentException: l (0 to 9).");
         LedStrangers x = Checks.of(TWO + "stranger 0 1 0;");
-        CHECKS.dueBetween("corner", ILLEGAL, 0, 9, x::corner);
+        dueBetween("corner", ILLEGAL, 0, 9, x::corner);
     }
 
     private static void promise26Other() {
         says(26, "OTHER: the law of the least COST, of these the least.");
+        // Who is met at the PLACE to which the law leads goes on for nothing; a dear one is met at each PLACE before
+        // it, in the MINUTE in which one would be left there.
         for (int law = 1; law <= 9; law++) {
-            // Who is met at that PLACE leads on for nothing; whoever would be met before is met only by that law.
-            String town = SHORT_STREETS + "person " + law + " 11 " + 5 * law + " 1;person 0 " + law + " 0 9;stranger 0 11 0;";
-            LedStrangers x = Checks.of(town);
-            due("nothing is lost by it", x.corner(law), 0);
-            int least = law;
-            for (int l = law - 1; l >= 1; l--) {
-                least = law % l == 0 ? l : least;
+            StringBuilder town = new StringBuilder(SHORT_STREETS);
+            for (int before = 1; before < law; before++) {
+                town.append("person ").append(before).append(' ').append(before - 1).append(' ').append(5 * before).append(" 99;");
             }
-            due("the least that comes to " + law, x.other(), least);
+            town.append("person ").append(law).append(" 11 ").append(5 * law).append(" 1;");
+            town.append("person 0 ").append(law).append(" 0 9;stranger 0 11 0;");
+            LedStrangers x = Checks.of(town.toString());
+            due("nothing is lost by it", x.corner(law), 0);
+            due("the law " + law + " alone", x.other(), law);
         }
+        due("of two alike the least", Checks.of(SHORT_STREETS + "person 4 11 20 1;person 1 0 5 99;person 0 4 0 9;"
+                + "stranger 0 11 0;").other(), 2);
         due("all alike", Checks.of(SHORT_STREETS + "person 0 1 0 9;stranger 0 11 0;law 7;").other(), 0);
         due("no STRANGERS", Checks.of("law 9;").other(), 0);
     }
@@ -263,9 +249,9 @@ public final class OtherTownEdgesTest {
     private static void promise27Refused() {
         says(27, "`int rest(int person) throws NoSuchElementException`");
         LedStrangers ten = Checks.of(TWO + "person 0 1 0 1;".repeat(10) + "stranger 0 1 0;");
-        CHECKS.dueBetween("rest of ten", NOBODY, 0, 9, ten::rest);
+        dueBetween("rest of ten", NOBODY, 0, 9, ten::rest);
         LedStrangers none = Checks.of(TWO + "stranger 0 1 0;");
-        CHECKS.dueRefused("rest without any", NOBODY, new int[] {0, -1, 1}, none::rest);
+        dueRefused("rest without any", NOBODY, new int[] {0, -1, 1}, none::rest);
     }
 
     private static void promise28Avoid() {
@@ -280,6 +266,9 @@ public final class OtherTownEdgesTest {
         due("two at one PLACE", Checks.of(town + "stranger 2 0 0;stranger 2 0 0;").avoid(0), 10);
         LedStrangers row = Checks.of(LONG_ROW + "person 0 11 0 1;stranger 11 0 0;stranger 0 11 0;");
         due("all the row", row.avoid(0), 660);
+        due("past 0", Checks.of("street 1 0 5;street 0 2 5;street 1 2 60;person 1 2 0 1;").avoid(0), 10);
+        due("not past 0", Checks.of("street 1 0 5;street 0 2 5;street 1 2 60;person 1 2 0 1;stranger 0 1 0;").avoid(0), 60);
+        due("of eight STRANGERS the last", Checks.of(town + "stranger 0 1 0;".repeat(7) + "stranger 1 0 0;").avoid(0), 12);
     }
 
     private static void promise28ButBothEnds() {
@@ -303,9 +292,9 @@ public final class OtherTownEdgesTest {
     private static void promise28Refused() {
         says(28, "`int avoid(int person) throws NoSuchElementException`");
         LedStrangers ten = Checks.of(TWO + "person 0 1 0 1;".repeat(10) + "stranger 0 1 0;");
-        CHECKS.dueBetween("avoid of ten", NOBODY, 0, 9, ten::avoid);
+        dueBetween("avoid of ten", NOBODY, 0, 9, ten::avoid);
         LedStrangers none = Checks.of(TWO + "stranger 0 1 0;");
-        CHECKS.dueRefused("avoid without any", NOBODY, new int[] {0, -1, 1}, none::avoid);
+        dueRefused("avoid without any", NOBODY, new int[] {0, -1, 1}, none::avoid);
     }
 
     /** Other towns are asked about, not made. */
@@ -320,9 +309,9 @@ public final class OtherTownEdgesTest {
             () -> x.match(0), () -> x.matched(1), x::bound, () -> x.hand(0, 2, 0), () -> x.judge(1)};
         int[] promises = {21, 22, 23, 24, 25, 26, 27, 28, 29, 30, 31, 32, 17, 18, 19, 20, 16};
         for (int i = 0; i < calls.length; i++) {
-            CHECKS.about("promise " + promises[i]);
+            says(promises[i], "Nothing is promised beyond the answers and state changes described above");
             int first = calls[i].answer();
-            CHECKS.dueSame("asking changes nothing", Checks.state(x), before);
+            dueSame("asking changes nothing", Checks.state(x), before);
             due("asked again", calls[i].answer(), first);
         }
     }

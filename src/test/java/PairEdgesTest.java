@@ -1,14 +1,9 @@
-import java.util.NoSuchElementException;
-
 /** Promises 17 to 20: who should ask whom, and handing on: each sentence that has an edge, by itself. */
-public final class PairEdgesTest {
-    private static final Checks CHECKS = new Checks("edges of pairs");
-    private static final Class<IllegalArgumentException> ILLEGAL = IllegalArgumentException.class;
-    private static final Class<NoSuchElementException> NOBODY = NoSuchElementException.class;
-    private static final String ROW = Checks.ROW;
+public final class PairEdgesTest extends Edges {
     private static final String FIVE = "places 5;street 0 1 5;street 1 2 5;street 2 3 5;street 3 4 5;";
 
     public static void main(String[] args) {
+        begin("edges of pairs");
         promise17OneAtMost();
         promise17Lost();
         promise17WhoKnowsWithWays();
@@ -18,6 +13,7 @@ public final class PairEdgesTest {
         promise17Refused();
         promise18First();
         promise18NobodyLast();
+        promise18AskedFirst();
         promise18Refused();
         promise19Bound();
         promise19NobodyCan();
@@ -28,16 +24,9 @@ public final class PairEdgesTest {
         promise20TimesHandedOn();
         promise20LeastLostThenLeastMinute();
         promise20NotLedThere();
+        promise20EachByHimself();
         promise20Refused();
-        CHECKS.end();
-    }
-
-    private static void says(int promise, String words) {
-        CHECKS.says(promise, words);
-    }
-
-    private static void due(String call, long got, long want) {
-        CHECKS.due(call, got, want);
+        end();
     }
 
     private static void dueMatch(LedStrangers x, int led, int lost, int... people) {
@@ -66,7 +55,7 @@ public final class PairEdgesTest {
         dueMatch(Checks.of(ROW + "person 0 3 0 9;stranger 1 2 0;"), 1, 0, 0);
         dueMatch(Checks.of(ROW + "person 1 2 0 9;stranger 3 0 0;"), 1, 9 * (10 + 15 + 10 - 5), 0);
         dueMatch(Checks.of(ROW + "person 1 2 0 9;stranger 0 3 0;"), 1, 9 * (5 + 15 + 5 - 5), 0);
-        String most = Checks.LONG_ROW + "person 0 1 0 99;".repeat(8) + "stranger 11 0 0;".repeat(8);
+        String most = LONG_ROW + "person 0 1 0 99;".repeat(8) + "stranger 11 0 0;".repeat(8);
         dueMatch(Checks.of(most), 8, 8 * 99 * (660 + 660 + 60 - 60), 0, 1, 2, 3, 4, 5, 6, 7);
     }
 
@@ -113,7 +102,7 @@ public final class PairEdgesTest {
     private static void promise17Refused() {
         says(17, "`int match(int what) throws IllegalArgumentException`");
         LedStrangers x = Checks.of(ROW + "person 0 2 0 2;stranger 1 3 0;");
-        CHECKS.dueBetween("match", ILLEGAL, 0, 1, x::match);
+        dueBetween("match", ILLEGAL, 0, 1, x::match);
     }
 
     private static void promise18First() {
@@ -139,12 +128,29 @@ public final class PairEdgesTest {
         dueMatch(Checks.of(ROW + "person 0 1 0 1;stranger 1 3 0;stranger 3 2 0;"), 1, 20, 0, -1);
     }
 
+    private static void promise18AskedFirst() {
+        says(18, "Who leads a STRANGER by it; NONE.");
+        LedStrangers x = Checks.of(ROW + "person 0 1 0 9;person 0 1 0 1;stranger 1 2 0;stranger 1 3 0;not 1 3;");
+        due("matched(0), match() not having been asked", x.matched(0), 1);
+        due("matched(1)", x.matched(1), 0);
+        Checks.town(x, ROW + "person 0 1 0 9;person 0 1 0 10;stranger 1 2 0;");
+        due("matched(0) in the next TOWN", x.matched(0), 0);
+        StringBuilder ten = new StringBuilder(ROW + "person 0 1 0 1;".repeat(10) + "stranger 1 2 0;".repeat(8));
+        for (int p = 0; p < 10; p++) {
+            ten.append("not ").append(p).append(" 2;");
+        }
+        LedStrangers nobody = Checks.of(ten.toString());
+        dueMatch(nobody, 0, 0, -1, -1, -1, -1, -1, -1, -1, -1);
+        due("hand, nobody of ten", nobody.hand(7, 2, 0), -1);
+        due("bound, nobody of ten", nobody.bound(), 0);
+    }
+
     private static void promise18Refused() {
         says(18, "`int matched(int stranger) throws NoSuchElementException`");
         LedStrangers x = Checks.of("stranger 0 1 0;".repeat(8));
-        CHECKS.dueBetween("matched", NOBODY, 0, 7, x::matched);
+        dueBetween("matched", NOBODY, 0, 7, x::matched);
         LedStrangers none = Checks.of("person 0 1 0 1;");
-        CHECKS.dueRefused("matched without any", NOBODY, new int[] {0, -1, 1}, none::matched);
+        dueRefused("matched without any", NOBODY, new int[] {0, -1, 1}, none::matched);
     }
 
     private static void promise19Bound() {
@@ -242,7 +248,7 @@ public final class PairEdgesTest {
         dueHand(Checks.of(chain), 1, 0, 20);
         String later = FIVE + "person 0 4 5 1;person 0 2 0 1;person 2 4 30 1;stranger 0 4 0;";
         dueHand(Checks.of(later), 1, 0, 25);
-        dueHand(Checks.of(Checks.LONG_ROW + "person 0 1 0 99;stranger 0 11 0;"), 2, 99 * 1200, 660);
+        dueHand(Checks.of(LONG_ROW + "person 0 1 0 99;stranger 0 11 0;"), 2, 99 * 1200, 660);
     }
 
     private static void promise20NotLedThere() {
@@ -254,17 +260,30 @@ public final class PairEdgesTest {
         }
     }
 
+    private static void promise20EachByHimself() {
+        says(20, "HANDING on of one STRANGER");
+        LedStrangers x = Checks.of(FIVE + "person 0 4 0 1;person 0 1 3 9;stranger 0 4 0;stranger 0 4 1;stranger 0 4 4;");
+        for (int i = 0; i < 2; i++) {
+            due("the first", x.hand(0, 2, 0), 0);
+            due("the second", x.hand(1, 2, 0), 9 * 30);
+            due("the third", x.hand(2, 2, 0), -1);
+            due("the first", x.hand(0, 2, 1), 20);
+            due("the second", x.hand(1, 2, 1), 23);
+            due("the third", x.hand(2, 2, 1), -1);
+        }
+    }
+
     private static void promise20Refused() {
         says(20, "IllegalArgumentException: h, what.");
         LedStrangers x = Checks.of(FIVE + "person 0 1 0 1;" + "stranger 0 4 0;".repeat(8));
-        CHECKS.dueBetween("hand, h", ILLEGAL, 0, 2, h -> x.hand(0, h, 0));
-        CHECKS.dueBetween("hand, what", ILLEGAL, 0, 1, what -> x.hand(0, 2, what));
+        dueBetween("hand, h", ILLEGAL, 0, 2, h -> x.hand(0, h, 0));
+        dueBetween("hand, what", ILLEGAL, 0, 1, what -> x.hand(0, 2, what));
         LedStrangers unled = Checks.of("stranger 0 1 0;");
-        CHECKS.dueBetween("hand, h, of one who is not led", ILLEGAL, 0, 2, h -> unled.hand(0, h, 0));
-        CHECKS.dueBetween("hand, what, of one who is not led", ILLEGAL, 0, 1, what -> unled.hand(0, 0, what));
+        dueBetween("hand, h, of one who is not led", ILLEGAL, 0, 2, h -> unled.hand(0, h, 0));
+        dueBetween("hand, what, of one who is not led", ILLEGAL, 0, 1, what -> unled.hand(0, 0, what));
         says(20, "`int hand(int stranger, int h, int what) throws NoSuchElementException, IllegalArgumentException`");
-        CHECKS.dueBetween("hand, stranger", NOBODY, 0, 7, s -> x.hand(s, 0, 0));
+        dueBetween("hand, stranger", NOBODY, 0, 7, s -> x.hand(s, 0, 0));
         LedStrangers none = Checks.of("person 0 1 0 1;");
-        CHECKS.dueThrow("hand without any", NOBODY, () -> none.hand(0, 0, 0));
+        dueThrow("hand without any", NOBODY, () -> none.hand(0, 0, 0));
     }
 }

@@ -1,9 +1,7 @@
 /** Promises 1 to 5, and what the terms say of a text: each sentence that has an edge, by itself. */
-public final class TextEdgesTest {
-    private static final Checks CHECKS = new Checks("edges of the text");
-    private static final Class<IllegalArgumentException> ILLEGAL = IllegalArgumentException.class;
-
+public final class TextEdgesTest extends Edges {
     public static void main(String[] args) {
+        begin("edges of the text");
         promise1NewObject();
         promise2Order();
         promise2HowMany();
@@ -35,6 +33,7 @@ public final class TextEdgesTest {
         promise3PlacesTooLate();
         promise3LeastOfOnePlace();
         promise3FirstBytes();
+        promise3NothingOfTheOneBefore();
         promise3EmptyThen();
         promise3PairsAndImagesGone();
         promise3HowManyPeople();
@@ -45,15 +44,7 @@ public final class TextEdgesTest {
         promise4Without();
         promise5Told();
         promise5AnotherWhat();
-        CHECKS.end();
-    }
-
-    private static void says(int promise, String words) {
-        CHECKS.says(promise, words);
-    }
-
-    private static void due(String call, long got, long want) {
-        CHECKS.due(call, got, want);
+        end();
     }
 
     private static LedStrangers dueGood(String text, int people) {
@@ -110,8 +101,8 @@ public final class TextEdgesTest {
         due("mean", x.mean(7, 99), 0);
         due("fault", x.fault(), -1);
         due("town of nothing on an empty tape", x.town(0), 0);
-        CHECKS.dueSame("as a town of no bytes", Checks.state(x), Checks.state(new LedStrangers()));
-        CHECKS.dueSame("as a town of blanks", Checks.state(Checks.of("  ")), Checks.state(new LedStrangers()));
+        dueSame("as a town of no bytes", Checks.state(x), Checks.state(new LedStrangers()));
+        dueSame("as a town of blanks", Checks.state(Checks.of("  ")), Checks.state(new LedStrangers()));
         due("restore", x.restore(), -1);
         due("image", x.image(), 1);
     }
@@ -161,7 +152,7 @@ public final class TextEdgesTest {
             due("one more", x.feed(0x6c617720, 0x383b2020, -1, 0, 5), -1);
             due("still 600", x.count(1), 600);
         }
-        CHECKS.dueThrow("town(620)", ILLEGAL, () -> x.town(620));
+        dueThrow("town(620)", ILLEGAL, () -> x.town(620));
         due("what was there stands", x.town(600), 0);
         due("what was there stands", x.told(4), 7);
         due("then there is room", x.feed(0, 0, 0, 0, 0), 20);
@@ -231,6 +222,10 @@ public final class TextEdgesTest {
         String twenty = "street 0 1 9;".repeat(19) + "street 2 3 8;";
         due("the twentieth", dueGood(twenty, 0).far(2, 3), 8);
         dueFault(twenty + "street 0 2 1;", 3, 260);
+        LedStrangers again = new LedStrangers();
+        for (int i = 0; i < 4; i++) {
+            due("twenty in each TOWN", Checks.town(again, twenty), 0);
+        }
         dueGood(twenty + "law 1;person 0 1 0 1;stranger 0 1 0;guide 0 0;sign 0 1;", 1);
     }
 
@@ -414,7 +409,11 @@ public final class TextEdgesTest {
         String[] words = {"places", "street", "person", "not", "stranger", "finds", "chance", "sign", "guide", "law"};
         for (String word : words) {
             dueFault(word + "s 0;", 1, 0);
+            dueFault(word + "z 0;", 1, 0);
+            dueFault(word + "a 0;", 1, 0);
             dueFault("a" + word + " 0;", 1, 0);
+            dueFault("x" + word.substring(1) + " 0;", 1, 0);
+            dueFault(word.substring(0, word.length() - 1) + "x 0;", 1, 0);
             dueFault(word.substring(1) + " 0;", 1, 0);
             dueFault(word.substring(0, word.length() - 1) + " 0;", 1, 0);
             dueFault(word.substring(0, word.length() - 1) + "{ 0;", 1, 0);
@@ -567,6 +566,23 @@ public final class TextEdgesTest {
         due("all of them", x.town(20), -8);
     }
 
+    private static void promise3NothingOfTheOneBefore() {
+        says(3, "The first n bytes of the TAPE (empty then) are the TOWN");
+        String full = "places 12;street 0 1 5;street 1 2 5;street 2 11 9;" + "person 0 11 0 3;person 2 0 4 5;person 1 0 5 1;"
+                + "person 0 1 0 1;".repeat(5) + "stranger 0 2 0;stranger 1 0 5;stranger 11 0 0;stranger 2 1 3;"
+                + "stranger 0 1 0;not 1 0;not 0 2;not 2 11;finds 0 1;finds 1 0;finds 2 2;chance 0 3;chance 1 1;sign 0 1;"
+                + "sign 1 2;guide 0 4;guide 1 2;guide 2 9;law 1;";
+        String middle = "places 3;street 0 1 5;street 1 2 5;person 2 1 0 3;person 0 2 0 1;stranger 0 1 0;stranger 1 2 5;"
+                + "stranger 0 2 0;guide 2 1;not 1 2;";
+        String bare = "street 0 1 5;street 1 2 5;person 0 1 0 3;stranger 0 2 0;";
+        String[] texts = {full, bare, middle, full, middle, bare, "", bare, full, "", middle, bare, bare};
+        LedStrangers x = new LedStrangers();
+        for (String text : texts) {
+            Checks.town(x, text);
+            dueSame("[" + text + "] behind others", Checks.answers(x), Checks.answers(Checks.of(text)));
+        }
+    }
+
     private static void promise3EmptyThen() {
         says(3, "(empty then)");
         LedStrangers x = new LedStrangers();
@@ -575,7 +591,7 @@ public final class TextEdgesTest {
             Checks.feed(x, "law 1;");
             x.town(n);
             due("after " + n, x.count(1), 0);
-            CHECKS.dueThrow("town(1) after " + n, ILLEGAL, () -> x.town(1));
+            dueThrow("town(1) after " + n, ILLEGAL, () -> x.town(1));
             due("town(0) after " + n, x.town(0), 0);
         }
         Checks.feed(x, "law 1;law 2;law 3;  law 4;");
@@ -633,7 +649,7 @@ public final class TextEdgesTest {
             x.image();
             String before = Checks.state(x).replaceFirst("fault -?\\d+", "fault");
             due("a fault", Checks.town(x, fault) < 0 ? 1 : 0, 1);
-            CHECKS.dueSame("behind a fault", Checks.state(x).replaceFirst("fault -?\\d+", "fault"), before);
+            dueSame("behind a fault", Checks.state(x).replaceFirst("fault -?\\d+", "fault"), before);
             due("the image", x.restore(), 0);
             due("then a town, with nothing of the fault", Checks.town(x, "places 3;person 0 1 0 1;stranger 0 1 0;"), 1);
             due("then a town, with nothing of the fault", x.far(0, 1), -1);
@@ -644,18 +660,18 @@ public final class TextEdgesTest {
     private static void promise3RefusedLength() {
         says(3, "IllegalArgumentException: n is not 0 to the TAPE's bytes (it stays).");
         LedStrangers x = Checks.of("law 3;");
-        CHECKS.dueRefused("town on an empty tape", ILLEGAL, new int[] {1, -1, 20, 600, Integer.MAX_VALUE,
+        dueRefused("town on an empty tape", ILLEGAL, new int[] {1, -1, 20, 600, Integer.MAX_VALUE,
             Integer.MIN_VALUE}, x::town);
         Checks.feed(x, "law 5;law 6;law 7;  ");
         String before = Checks.state(x);
-        CHECKS.dueRefused("town on a tape of 20", ILLEGAL, new int[] {21, -1, 40, 601, -20, Integer.MAX_VALUE,
+        dueRefused("town on a tape of 20", ILLEGAL, new int[] {21, -1, 40, 601, -20, Integer.MAX_VALUE,
             Integer.MIN_VALUE}, x::town);
-        CHECKS.dueSame("refused", Checks.state(x), before);
+        dueSame("refused", Checks.state(x), before);
         due("the tape stays", x.count(1), 20);
         due("the tape stays", x.town(20), 0);
         due("the tape stays", x.told(4), 7);
         Checks.feed(x, " ".repeat(600));
-        CHECKS.dueThrow("town on a full tape", ILLEGAL, () -> x.town(601));
+        dueThrow("town on a full tape", ILLEGAL, () -> x.town(601));
         due("600 of 600", x.town(600), 0);
     }
 
@@ -674,7 +690,7 @@ public final class TextEdgesTest {
         due("at the length of 600", x.fault(), 600);
         Checks.feed(x, "law");
         due("feeding leaves it", x.fault(), 600);
-        CHECKS.dueThrow("town(21)", ILLEGAL, () -> x.town(21));
+        dueThrow("town(21)", ILLEGAL, () -> x.town(21));
         due("a refused town() leaves it", x.fault(), 600);
     }
 
@@ -708,6 +724,6 @@ public final class TextEdgesTest {
     private static void promise5AnotherWhat() {
         says(5, "IllegalArgumentException: another what (so below).");
         LedStrangers x = new LedStrangers();
-        CHECKS.dueBetween("told", ILLEGAL, 0, 4, x::told);
+        dueBetween("told", ILLEGAL, 0, 4, x::told);
     }
 }

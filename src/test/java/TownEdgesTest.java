@@ -1,16 +1,10 @@
-import java.util.NoSuchElementException;
-
 /** Promises 6 to 10: ways, people, strangers and told pairs: each sentence that has an edge, by itself. */
-public final class TownEdgesTest {
-    private static final Checks CHECKS = new Checks("edges of the town");
-    private static final Class<IllegalArgumentException> ILLEGAL = IllegalArgumentException.class;
-    private static final Class<IndexOutOfBoundsException> NO_PLACE = IndexOutOfBoundsException.class;
-    private static final Class<NoSuchElementException> NOBODY = NoSuchElementException.class;
-
+public final class TownEdgesTest extends Edges {
     /** Ten people and eight strangers. */
     private static final String FULL = "places 12;street 0 1 5;" + "person 0 1 0 1;".repeat(10) + "stranger 0 1 0;".repeat(8);
 
     public static void main(String[] args) {
+        begin("edges of the town");
         promise6Far();
         promise6NoWay();
         promise6NoSuchPlace();
@@ -28,22 +22,14 @@ public final class TownEdgesTest {
         promise10NobodyAtFirst();
         promise10NoSuchStranger();
         promise10NoSuchPerson();
-        CHECKS.end();
-    }
-
-    private static void says(int promise, String words) {
-        CHECKS.says(promise, words);
-    }
-
-    private static void due(String call, long got, long want) {
-        CHECKS.due(call, got, want);
+        end();
     }
 
     // ---- promises 6 and 7
 
     private static void promise6Far() {
         says(6, "FAR: the least minutes from one PLACE to another one");
-        LedStrangers row = Checks.of(Checks.LONG_ROW);
+        LedStrangers row = Checks.of(LONG_ROW);
         for (int a = 0; a < 12; a++) {
             for (int b = 0; b < 12; b++) {
                 due("far " + a + " " + b, row.far(a, b), 60 * Math.abs(a - b));
@@ -57,6 +43,9 @@ public final class TownEdgesTest {
         LedStrangers less = Checks.of("street 0 1 58;street 0 2 20;street 2 3 20;street 3 1 19;");
         due("straight is less", less.far(0, 1), 58);
         due("the least there is", Checks.of("street 0 3 1;").far(0, 3), 1);
+        due("by the first PLACE", Checks.of("street 1 0 5;street 0 2 6;street 1 2 12;").far(2, 1), 11);
+        due("by the last PLACE", Checks.of("street 1 3 5;street 3 2 6;street 1 2 12;").far(2, 1), 11);
+        due("by the last of twelve", Checks.of("places 12;street 1 11 5;street 11 2 6;street 1 2 12;").far(2, 1), 11);
     }
 
     private static void promise6NoWay() {
@@ -74,20 +63,20 @@ public final class TownEdgesTest {
     private static void promise6NoSuchPlace() {
         says(6, "IndexOutOfBoundsException: no such PLACE (so below).");
         LedStrangers two = Checks.of("places 2;street 0 1 1;");
-        CHECKS.dueBetween("far from", NO_PLACE, 0, 1, z -> two.far(z, 0));
-        CHECKS.dueBetween("far to", NO_PLACE, 0, 1, z -> two.far(0, z));
+        dueBetween("far from", NO_PLACE, 0, 1, z -> two.far(z, 0));
+        dueBetween("far to", NO_PLACE, 0, 1, z -> two.far(0, z));
         LedStrangers twelve = Checks.of("places 12;");
-        CHECKS.dueBetween("far from", NO_PLACE, 0, 11, z -> twelve.far(z, 11));
-        CHECKS.dueBetween("far to", NO_PLACE, 0, 11, z -> twelve.far(11, z));
+        dueBetween("far from", NO_PLACE, 0, 11, z -> twelve.far(z, 11));
+        dueBetween("far to", NO_PLACE, 0, 11, z -> twelve.far(11, z));
         LedStrangers bare = new LedStrangers();
-        CHECKS.dueBetween("far in a new town", NO_PLACE, 0, 3, z -> bare.far(z, z));
+        dueBetween("far in a new town", NO_PLACE, 0, 3, z -> bare.far(z, z));
         Checks.town(twelve, "places 2;");
-        CHECKS.dueBetween("far in a lesser town", NO_PLACE, 0, 1, z -> twelve.far(z, 0));
+        dueBetween("far in a lesser town", NO_PLACE, 0, 1, z -> twelve.far(z, 0));
     }
 
     private static void promise7Way() {
         says(7, "The i-th PLACE of a WAY (the first one at 0)");
-        LedStrangers row = Checks.of(Checks.LONG_ROW);
+        LedStrangers row = Checks.of(LONG_ROW);
         for (int i = 0; i < 12; i++) {
             due("up, at " + i, row.way(0, 11, i), i);
             due("down, at " + i, row.way(11, 0, i), 11 - i);
@@ -120,7 +109,7 @@ public final class TownEdgesTest {
     private static void promise7NoneSuch() {
         says(7, "NONE: none such.");
         int[] outside = {-1, -2, 12, 13, Integer.MAX_VALUE, Integer.MIN_VALUE};
-        LedStrangers row = Checks.of(Checks.LONG_ROW);
+        LedStrangers row = Checks.of(LONG_ROW);
         for (int i : outside) {
             due("of twelve, at " + i, row.way(0, 11, i), -1);
         }
@@ -137,16 +126,16 @@ public final class TownEdgesTest {
     private static void promise7NoSuchPlace() {
         says(7, "`int way(int from, int to, int i) throws IndexOutOfBoundsException`");
         LedStrangers x = Checks.of("places 3;street 0 1 1;");
-        CHECKS.dueBetween("way from", NO_PLACE, 0, 2, z -> x.way(z, 0, 0));
-        CHECKS.dueBetween("way to", NO_PLACE, 0, 2, z -> x.way(0, z, 0));
-        CHECKS.dueBetween("way, where there is no i either", NO_PLACE, 0, 2, z -> x.way(0, z, -1));
+        dueBetween("way from", NO_PLACE, 0, 2, z -> x.way(z, 0, 0));
+        dueBetween("way to", NO_PLACE, 0, 2, z -> x.way(0, z, 0));
+        dueBetween("way, where there is no i either", NO_PLACE, 0, 2, z -> x.way(0, z, -1));
     }
 
     // ---- promises 8 and 9
 
     private static void promise8Person() {
         says(8, "Of a PERSON: 0 P, 1 Q, 2 T, 3 V, 4 what he knows (bits), 5 when he comes to Q if nobody asks");
-        LedStrangers x = Checks.of(Checks.LONG_ROW + "person 0 11 500 99;person 11 0 0 1;not 1 0;not 1 11;stranger 0 1 500;");
+        LedStrangers x = Checks.of(LONG_ROW + "person 0 11 500 99;person 11 0 0 1;not 1 0;not 1 11;stranger 0 1 500;");
         int[] first = {0, 11, 500, 99, 4095, 1160};
         int[] second = {11, 0, 0, 1, 4095 - 1 - 2048, 660};
         for (int what = 0; what < 6; what++) {
@@ -154,7 +143,7 @@ public final class TownEdgesTest {
             due("of the second " + what, x.person(1, what), second[what]);
         }
         due("somebody asks the first", x.lost(0, 0), 0);
-        LedStrangers asked = Checks.of(Checks.ROW + "person 0 1 3 2;stranger 0 3 0;");
+        LedStrangers asked = Checks.of(ROW + "person 0 1 3 2;stranger 0 3 0;");
         due("somebody asks", asked.lost(0, 0), 40);
         due("as if nobody asks", asked.person(0, 5), 8);
     }
@@ -171,19 +160,19 @@ public final class TownEdgesTest {
     private static void promise8NoSuchPerson() {
         says(8, "NoSuchElementException: no such PERSON, STRANGER (so below).");
         LedStrangers none = Checks.of("stranger 0 1 0;");
-        CHECKS.dueRefused("person without any", NOBODY, new int[] {0, -1, 1, 9}, p -> none.person(p, 0));
+        dueRefused("person without any", NOBODY, new int[] {0, -1, 1, 9}, p -> none.person(p, 0));
         LedStrangers one = Checks.of("person 0 1 0 1;stranger 0 1 0;stranger 0 1 0;");
-        CHECKS.dueBetween("person of one", NOBODY, 0, 0, p -> one.person(p, 5));
+        dueBetween("person of one", NOBODY, 0, 0, p -> one.person(p, 5));
         LedStrangers ten = Checks.of(FULL);
-        CHECKS.dueBetween("person of ten", NOBODY, 0, 9, p -> ten.person(p, 0));
+        dueBetween("person of ten", NOBODY, 0, 9, p -> ten.person(p, 0));
         Checks.town(ten, "person 0 1 0 1;person 0 1 0 1;");
-        CHECKS.dueBetween("person of a lesser town", NOBODY, 0, 1, p -> ten.person(p, 0));
+        dueBetween("person of a lesser town", NOBODY, 0, 1, p -> ten.person(p, 0));
     }
 
     private static void promise8AnotherWhat() {
         says(8, "`int person(int person, int what) throws NoSuchElementException, IllegalArgumentException`");
         LedStrangers x = Checks.of("person 0 1 0 1;");
-        CHECKS.dueBetween("person, what", ILLEGAL, 0, 5, what -> x.person(0, what));
+        dueBetween("person, what", ILLEGAL, 0, 5, what -> x.person(0, what));
     }
 
     private static void promise9Stranger() {
@@ -202,12 +191,12 @@ public final class TownEdgesTest {
     private static void promise9Refused() {
         says(9, "`int stranger(int stranger, int what) throws NoSuchElementException, IllegalArgumentException`");
         LedStrangers none = Checks.of("person 0 1 0 1;");
-        CHECKS.dueRefused("stranger without any", NOBODY, new int[] {0, -1, 1, 7}, s -> none.stranger(s, 0));
+        dueRefused("stranger without any", NOBODY, new int[] {0, -1, 1, 7}, s -> none.stranger(s, 0));
         LedStrangers eight = Checks.of(FULL);
-        CHECKS.dueBetween("stranger of eight", NOBODY, 0, 7, s -> eight.stranger(s, 0));
-        CHECKS.dueBetween("stranger, what", ILLEGAL, 0, 4, what -> eight.stranger(7, what));
+        dueBetween("stranger of eight", NOBODY, 0, 7, s -> eight.stranger(s, 0));
+        dueBetween("stranger, what", ILLEGAL, 0, 4, what -> eight.stranger(7, what));
         Checks.town(eight, "stranger 0 1 0;");
-        CHECKS.dueBetween("stranger of a lesser town", NOBODY, 0, 0, s -> eight.stranger(s, 0));
+        dueBetween("stranger of a lesser town", NOBODY, 0, 0, s -> eight.stranger(s, 0));
     }
 
     // ---- promise 10
@@ -242,23 +231,23 @@ public final class TownEdgesTest {
     private static void promise10NoSuchStranger() {
         says(10, "`int tell(int stranger, int person) throws NoSuchElementException, IllegalArgumentException`");
         LedStrangers none = Checks.of("person 0 1 0 1;");
-        CHECKS.dueRefused("tell without any", NOBODY, new int[] {0, -1, 1}, s -> none.tell(s, 0));
-        CHECKS.dueRefused("tell nobody without any", NOBODY, new int[] {0, -1, 1}, s -> none.tell(s, -1));
+        dueRefused("tell without any", NOBODY, new int[] {0, -1, 1}, s -> none.tell(s, 0));
+        dueRefused("tell nobody without any", NOBODY, new int[] {0, -1, 1}, s -> none.tell(s, -1));
         LedStrangers x = Checks.of(FULL);
         x.tell(7, 3);
         String before = Checks.state(x);
-        CHECKS.dueRefused("tell", NOBODY, new int[] {-1, 8, Integer.MAX_VALUE, Integer.MIN_VALUE}, s -> x.tell(s, 0));
-        CHECKS.dueSame("refused", Checks.state(x), before);
+        dueRefused("tell", NOBODY, new int[] {-1, 8, Integer.MAX_VALUE, Integer.MIN_VALUE}, s -> x.tell(s, 0));
+        dueSame("refused", Checks.state(x), before);
     }
 
     private static void promise10NoSuchPerson() {
         says(10, "IllegalArgumentException: no such PERSON, and not NONE.");
         LedStrangers x = Checks.of(FULL);
-        CHECKS.dueBetween("tell", ILLEGAL, -1, 9, p -> x.tell(0, p));
+        dueBetween("tell", ILLEGAL, -1, 9, p -> x.tell(0, p));
         x.tell(0, 4);
-        CHECKS.dueRefused("tell", ILLEGAL, new int[] {-2, 10, 100, Integer.MAX_VALUE, Integer.MIN_VALUE}, p -> x.tell(0, p));
+        dueRefused("tell", ILLEGAL, new int[] {-2, 10, 100, Integer.MAX_VALUE, Integer.MIN_VALUE}, p -> x.tell(0, p));
         due("refused: who was told stays", x.tell(0, 4), 4);
         LedStrangers none = Checks.of("stranger 0 1 0;");
-        CHECKS.dueBetween("tell in a town without PEOPLE", ILLEGAL, -1, -1, p -> none.tell(0, p));
+        dueBetween("tell in a town without PEOPLE", ILLEGAL, -1, -1, p -> none.tell(0, p));
     }
 }
