@@ -299,20 +299,24 @@ public final class OtherTownEdgesTest extends Edges {
 
     /** Other towns are asked about, not made. */
     private static void townStays() {
-        LedStrangers x = Checks.of(ROW + "person 0 2 0 2;person 2 0 0 3;not 1 3;stranger 1 3 3;stranger 2 0 0;chance 1 3;"
-                + "guide 3 4;law 2;sign 0 3;");
-        x.tell(0, 0);
-        x.image();
-        String before = Checks.state(x);
-        Checks.Call[] calls = {() -> x.saves(1), x::which, () -> x.where(0, 0), () -> x.many(0, 1), () -> x.corner(9),
-            x::other, () -> x.rest(0), () -> x.avoid(1), () -> x.learn(9), x::soon, () -> x.seed(4, 5, 0), () -> x.mean(3, 9),
-            () -> x.match(0), () -> x.matched(1), x::bound, () -> x.hand(0, 2, 0), () -> x.judge(1)};
-        int[] promises = {21, 22, 23, 24, 25, 26, 27, 28, 29, 30, 31, 32, 17, 18, 19, 20, 16};
-        for (int i = 0; i < calls.length; i++) {
+        int[] promises = {16, 17, 18, 19, 20, 21, 22, 23, 24, 25, 26, 27, 28, 29, 30, 31, 32};
+        for (int i = 0; i < promises.length; i++) {
             says(promises[i], "Nothing is promised beyond the answers and state changes described above");
-            int first = calls[i].answer();
+            LedStrangers x = Checks.of(ROW + "person 0 2 0 2;person 2 0 0 3;not 1 3;stranger 1 3 3;stranger 2 0 0;"
+                    + "chance 1 3;guide 3 4;law 2;sign 0 3;");
+            x.tell(0, 0);
+            x.image();
+            String before = Checks.state(x);
+            int first = asking(x)[i].answer();
             dueSame("asking changes nothing", Checks.state(x), before);
-            due("asked again", calls[i].answer(), first);
+            due("asked again", asking(x)[i].answer(), first);
         }
+    }
+
+    /** Calls that only ask, from promise 16 on. */
+    private static Checks.Call[] asking(LedStrangers x) {
+        return new Checks.Call[] {() -> x.judge(1), () -> x.match(0), () -> x.matched(1), x::bound, () -> x.hand(0, 2, 0),
+            () -> x.saves(1), x::which, () -> x.where(0, 0), () -> x.many(0, 1), () -> x.corner(9), x::other, () -> x.rest(0),
+            () -> x.avoid(1), () -> x.learn(9), x::soon, () -> x.seed(4, 5, 0), () -> x.mean(3, 9)};
     }
 }

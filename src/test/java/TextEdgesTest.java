@@ -575,11 +575,32 @@ public final class TextEdgesTest extends Edges {
         String middle = "places 3;street 0 1 5;street 1 2 5;person 2 1 0 3;person 0 2 0 1;stranger 0 1 0;stranger 1 2 5;"
                 + "stranger 0 2 0;guide 2 1;not 1 2;";
         String bare = "street 0 1 5;street 1 2 5;person 0 1 0 3;stranger 0 2 0;";
-        String[] texts = {full, bare, middle, full, middle, bare, "", bare, full, "", middle, bare, bare};
-        LedStrangers x = new LedStrangers();
-        for (String text : texts) {
-            Checks.town(x, text);
-            dueSame("[" + text + "] behind others", Checks.answers(x), Checks.answers(Checks.of(text)));
+        String[] texts = {full, middle, bare, ""};
+        for (String last : texts) {
+            String alone = Checks.answers(Checks.of(last));
+            for (String first : texts) {
+                for (String second : texts) {
+                    LedStrangers x = Checks.of(first);
+                    askSome(x);
+                    Checks.town(x, second);
+                    askSome(x);
+                    Checks.town(x, last);
+                    dueSame("[" + last + "] behind [" + first + "] and [" + second + "]", Checks.answers(x), alone);
+                }
+            }
+        }
+    }
+
+    private static void askSome(LedStrangers x) {
+        x.day(1, 0);
+        x.match(0);
+        x.many(0, 0);
+        x.other();
+        x.learn(3);
+        x.seed(0, 1, 0);
+        for (int s = 0; s < x.told(2); s++) {
+            x.hand(s, 2, 0);
+            x.tell(s, -1);
         }
     }
 
