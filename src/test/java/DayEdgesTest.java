@@ -163,9 +163,11 @@ public final class DayEdgesTest extends Edges {
         due("then what he finds", half.day(3, 3), 0);
         due("then what he finds", half.there(3, 0), 15);
         due("then what he finds", half.day(3, 0), 0);
+        says(11, "he is led.");
         LedStrangers led = Checks.of(ROW + "stranger 1 3 5;person 0 1 0 9;guide 1 9;finds 0 3;sign 1 0;sign 3 1;");
         due("then he is led", led.leads(3, 0, 0), 0);
         due("then he is led", led.there(3, 0), 15);
+        says(11, "does the first of these that can be");
         LedStrangers apart = Checks.of("sign 0 3;stranger 0 3 0;finds 0 3;finds 0 1;guide 0 1;person 0 1 0 1;");
         for (int kind = 0; kind < 5; kind++) {
             due("nothing can be without a WAY, by kind " + kind, apart.day(kind, 2), 1000);

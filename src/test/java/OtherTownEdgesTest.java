@@ -143,6 +143,7 @@ public final class OtherTownEdgesTest extends Edges {
         LedStrangers none = Checks.of(TWO + "stranger 0 1 0;stranger 1 0 0;");
         due("none", none.many(1, 0), 0);
         due("none", none.many(1, 1), 0);
+        says(24, "MANY: 0 how many, 1 the COST.");
         LedStrangers ends = Checks.of(LONG_ROW + "person 1 0 0 99;person 10 11 0 99;stranger 0 2 0;stranger 11 9 0;");
         due("at the first and the last", ends.many(1, 0), 2);
         due("at the first and the last", ends.many(1, 1), 480);
