@@ -24,7 +24,7 @@ public final class AnyCallTest {
             + "person 0 1 0 1;person 0 1 0 1;person 0 1 0 1;person 0 1 0 1;person 0 1 0 1;"};
 
     public static void main(String[] args) {
-        for (int run = 0; run < 1000 && CHECKS.allRight(); run++) {
+        for (int run = 0; run < 1700 && CHECKS.allRight(); run++) {
             goThrough(run);
         }
         CHECKS.end();
@@ -34,7 +34,7 @@ public final class AnyCallTest {
     private static void goThrough(int run) {
         LedStrangers asked = new LedStrangers();
         LedStrangers changed = new LedStrangers();
-        for (int i = 0; i < 100; i++) {
+        for (int i = 0; i < 60; i++) {
             int call = LOTS.nextInt(CALLS + 3);
             if (call >= CALLS) {
                 CHECKS.about("promise 3");

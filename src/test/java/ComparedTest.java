@@ -7,11 +7,18 @@ import java.util.Random;
 public final class ComparedTest {
     private static final Checks CHECKS = new Checks("compared");
     private static final Random LOTS = new Random(20261118);
+
+    /** The document promises nothing behind these. */
+    private static final int MOST_CALLS = 512;
+
     private static LedStrangers used = new LedStrangers();
+    private static int calls = 0;
+    private static String usedText = "";
+    private static final int[] TOLD = new int[8];
 
     public static void main(String[] args) {
         for (int i = 0; i < 900 && CHECKS.allRight(); i++) {
-            compareTown(townText(i % 7), i);
+            compareTown(townText(i % 7), i % 10);
         }
         compareFaults(40000);
         CHECKS.end();
@@ -87,29 +94,58 @@ public final class ComparedTest {
 
     // ---- all answers
 
-    /** Some objects read several towns, one behind the other. */
-    private static void compareTown(String text, int number) {
-        used = number % 6 == 0 ? new LedStrangers() : used;
-        LedStrangers x = used;
+    /** The object for one call more: when it has had its calls, a new one that has been told the same. */
+    private static LedStrangers x() {
+        if (calls >= MOST_CALLS) {
+            int[] pairs = TOLD.clone();
+            readTown(usedText);
+            for (int s = 0; s < pairs.length; s++) {
+                if (pairs[s] >= 0) {
+                    tell(s, pairs[s]);
+                }
+            }
+        }
+        calls++;
+        return used;
+    }
+
+    private static int readTown(String text) {
+        int callsOfText = (text.length() + 19) / 20 + 1;
+        if (calls + callsOfText > MOST_CALLS) {
+            used = new LedStrangers();
+            calls = 0;
+        }
+        calls += callsOfText;
+        usedText = text;
+        Arrays.fill(TOLD, -1);
+        return Checks.town(used, text);
+    }
+
+    private static int tell(int s, int person) {
+        int before = x().tell(s, person);
+        TOLD[s] = person;
+        return before;
+    }
+
+    /** An object reads one town behind the other, as long as it has calls left. */
+    private static void compareTown(String text, int fee) {
         PlainTown plain = PlainTown.read(Checks.bytes(text), text.length());
-        due(text, "town", Checks.town(x, text), plain.faultKind == 0 ? plain.people.size() : plain.faultKind - 10);
+        due(text, "town", readTown(text), plain.faultKind == 0 ? plain.people.size() : plain.faultKind - 10);
         if (plain.faultKind != 0) {
             throw new IllegalStateException("fault in " + text);
         }
-        compareWays(x, plain, text);
-        int[] told = new int[8];
-        Arrays.fill(told, -1);
+        compareWays(plain, text);
         for (int s = 0; s < plain.strangers.size() && !plain.people.isEmpty(); s++) {
-            told[s] = LOTS.nextInt(4) == 0 ? -1 : bestGuess(plain, s);
-            x.tell(s, told[s]);
+            int told = LOTS.nextInt(4) == 0 ? -1 : bestGuess(plain, s);
+            due(text, "tell " + s + " " + told, tell(s, told), -1);
         }
         for (int kind = 0; kind < 5; kind++) {
-            compareDay(x, plain, kind, told, text);
+            compareDay(plain, kind, text);
         }
-        comparePairs(x, plain, text);
-        compareOtherTowns(x, plain, text, number % 10);
-        compareLearning(x, plain, text);
-        compareLots(x, plain, told, text);
+        comparePairs(plain, text);
+        compareOtherTowns(plain, text, fee);
+        compareLearning(plain, text);
+        compareLots(plain, text);
     }
 
     /** A told person who can lead a stranger, if there is one, so that days by told pairs are not empty. */
@@ -125,19 +161,19 @@ public final class ComparedTest {
         return start;
     }
 
-    private static void compareWays(LedStrangers x, PlainTown plain, String text) {
-        due(text, "told 0", x.told(0), plain.places);
-        due(text, "told 1", x.told(1), plain.people.size());
-        due(text, "told 2", x.told(2), plain.strangers.size());
-        due(text, "told 3", x.told(3), plain.guides.size());
-        due(text, "told 4", x.told(4), plain.law);
+    private static void compareWays(PlainTown plain, String text) {
+        due(text, "told 0", x().told(0), plain.places);
+        due(text, "told 1", x().told(1), plain.people.size());
+        due(text, "told 2", x().told(2), plain.strangers.size());
+        due(text, "told 3", x().told(3), plain.guides.size());
+        due(text, "told 4", x().told(4), plain.law);
         for (int a = 0; a < plain.places; a++) {
             for (int b = 0; b < plain.places; b++) {
-                due(text, "far " + a + " " + b, x.far(a, b), plain.far(a, b));
+                due(text, "far " + a + " " + b, x().far(a, b), plain.far(a, b));
                 List<Integer> way = plain.way(a, b);
                 for (int i = -1; i <= way.size() + 1; i++) {
                     int want = i >= 0 && i < way.size() ? way.get(i) : -1;
-                    due(text, "way " + a + " " + b + " " + i, x.way(a, b, i), want);
+                    due(text, "way " + a + " " + b + " " + i, x().way(a, b, i), want);
                 }
             }
         }
@@ -146,15 +182,15 @@ public final class ComparedTest {
             int far = plain.far(p.p, p.q);
             int[] want = {p.p, p.q, p.t, p.v, bits(p.knows), far < 0 ? -1 : p.t + far};
             for (int what = 0; what < 6; what++) {
-                due(text, "person " + k + " " + what, x.person(k, what), want[what]);
+                due(text, "person " + k + " " + what, x().person(k, what), want[what]);
             }
-            due(text, "avoid " + k, x.avoid(k), plain.avoid(k));
+            due(text, "avoid " + k, x().avoid(k), plain.avoid(k));
         }
         for (int k = 0; k < plain.strangers.size(); k++) {
             PlainTown.Stranger s = plain.strangers.get(k);
             int[] want = {s.x, s.y, s.t, s.c, bits(s.finds)};
             for (int what = 0; what < 5; what++) {
-                due(text, "stranger " + k + " " + what, x.stranger(k, what), want[what]);
+                due(text, "stranger " + k + " " + what, x().stranger(k, what), want[what]);
             }
         }
     }
@@ -167,58 +203,58 @@ public final class ComparedTest {
         return bits;
     }
 
-    private static void compareDay(LedStrangers x, PlainTown plain, int kind, int[] told, String text) {
+    private static void compareDay(PlainTown plain, int kind, String text) {
         PlainTown.Day day = plain.new Day(kind);
-        day.told = told.clone();
+        day.told = TOLD.clone();
         day.run();
         int[] want = {day.cost(), day.left(), day.waited, day.led, day.thereInTime()};
         for (int what = 0; what < 5; what++) {
-            due(text, "day " + kind + " " + what, x.day(kind, what), want[what]);
+            due(text, "day " + kind + " " + what, x().day(kind, what), want[what]);
         }
-        due(text, "fees " + kind, x.fees(kind), day.fees);
+        due(text, "fees " + kind, x().fees(kind), day.fees);
         for (int k = 0; k < plain.people.size(); k++) {
-            due(text, "lost " + kind + " " + k, x.lost(kind, k), day.lost(k));
+            due(text, "lost " + kind + " " + k, x().lost(kind, k), day.lost(k));
         }
         int firstLeft = -1;
         int firstNotLed = -1;
         for (int s = plain.strangers.size() - 1; s >= 0; s--) {
             List<Integer> leaders = day.leaders.get(s);
-            due(text, "there " + kind + " " + s, x.there(kind, s), day.there[s]);
+            due(text, "there " + kind + " " + s, x().there(kind, s), day.there[s]);
             for (int i = -1; i <= leaders.size(); i++) {
                 int leader = i >= 0 && i < leaders.size() ? leaders.get(i) : -1;
-                due(text, "leads " + kind + " " + s + " " + i, x.leads(kind, s, i), leader);
+                due(text, "leads " + kind + " " + s + " " + i, x().leads(kind, s, i), leader);
             }
             firstLeft = day.there[s] < 0 ? s : firstLeft;
-            firstNotLed = told[s] >= 0 && !leaders.contains(told[s]) ? s : firstNotLed;
+            firstNotLed = TOLD[s] >= 0 && !leaders.contains(TOLD[s]) ? s : firstNotLed;
         }
         if (kind == 4) {
-            due(text, "judge 0", x.judge(0), firstLeft);
-            due(text, "judge 1", x.judge(1), firstNotLed);
+            due(text, "judge 0", x().judge(0), firstLeft);
+            due(text, "judge 1", x().judge(1), firstNotLed);
         }
     }
 
-    private static void comparePairs(LedStrangers x, PlainTown plain, String text) {
+    private static void comparePairs(PlainTown plain, String text) {
         plain.findPairs();
-        due(text, "match 0", x.match(0), plain.pairsLed());
-        due(text, "match 1", x.match(1), plain.pairsLost());
-        due(text, "bound", x.bound(), plain.bound());
+        due(text, "match 0", x().match(0), plain.pairsLed());
+        due(text, "match 1", x().match(1), plain.pairsLost());
+        due(text, "bound", x().bound(), plain.bound());
         for (int s = 0; s < plain.strangers.size(); s++) {
-            due(text, "matched " + s, x.matched(s), plain.bestPairs[s]);
+            due(text, "matched " + s, x().matched(s), plain.bestPairs[s]);
             for (int h = 0; h <= 2; h++) {
                 int[] best = plain.hand(s, h);
-                due(text, "hand " + s + " " + h + " 0", x.hand(s, h, 0), best == null ? -1 : best[0]);
-                due(text, "hand " + s + " " + h + " 1", x.hand(s, h, 1), best == null ? -1 : best[1]);
+                due(text, "hand " + s + " " + h + " 0", x().hand(s, h, 0), best == null ? -1 : best[0]);
+                due(text, "hand " + s + " " + h + " 1", x().hand(s, h, 1), best == null ? -1 : best[1]);
             }
         }
     }
 
-    private static void compareOtherTowns(LedStrangers x, PlainTown plain, String text, int fee) {
+    private static void compareOtherTowns(PlainTown plain, String text, int fee) {
         PlainTown.Day usual = plain.new Day(0).run();
         int sign = 0;
         int guide = 0;
         int[] most = {usual.cost(), Integer.MAX_VALUE, Integer.MAX_VALUE};
         for (int a = 0; a < plain.places; a++) {
-            due(text, "saves " + a, x.saves(a), usual.cost() - plain.costWithSign(a));
+            due(text, "saves " + a, x().saves(a), usual.cost() - plain.costWithSign(a));
             sign = plain.costWithSign(a) < plain.costWithSign(sign) ? a : sign;
             guide = plain.costWithGuides(fee, a) < plain.costWithGuides(fee, guide) ? a : guide;
             most[1] = Math.min(most[1], plain.costWithGuides(fee, a));
@@ -227,56 +263,55 @@ public final class ComparedTest {
             }
         }
         int least = Math.min(most[0], Math.min(most[1], most[2]));
-        due(text, "which", x.which(), sign);
-        due(text, "where " + fee + " 0", x.where(fee, 0), guide);
-        due(text, "where " + fee + " 1", x.where(fee, 1), plain.costWithGuides(fee, guide));
-        due(text, "many " + fee + " 0", x.many(fee, 0), most[0] == least ? 0 : most[1] == least ? 1 : 2);
-        due(text, "many " + fee + " 1", x.many(fee, 1), least);
+        due(text, "which", x().which(), sign);
+        due(text, "where " + fee + " 0", x().where(fee, 0), guide);
+        due(text, "where " + fee + " 1", x().where(fee, 1), plain.costWithGuides(fee, guide));
+        due(text, "many " + fee + " 0", x().many(fee, 0), most[0] == least ? 0 : most[1] == least ? 1 : 2);
+        due(text, "many " + fee + " 1", x().many(fee, 1), least);
         int law = 0;
         for (int l = 0; l <= 9; l++) {
-            due(text, "corner " + l, x.corner(l), plain.costWithLaw(l));
+            due(text, "corner " + l, x().corner(l), plain.costWithLaw(l));
             law = plain.costWithLaw(l) < plain.costWithLaw(law) ? l : law;
         }
-        due(text, "other", x.other(), law);
+        due(text, "other", x().other(), law);
         for (int k = 0; k < plain.people.size(); k++) {
-            due(text, "rest " + k, x.rest(k), usual.cost() - usual.lost(k) - plain.othersWithout(k));
+            due(text, "rest " + k, x().rest(k), usual.cost() - usual.lost(k) - plain.othersWithout(k));
         }
     }
 
-    private static void compareLearning(LedStrangers x, PlainTown plain, String text) {
+    private static void compareLearning(PlainTown plain, String text) {
         plain.learnAll();
         for (int days : new int[] {0, 1, 2, 3, 5, 9, 20, 99}) {
-            due(text, "learn " + days, x.learn(days), plain.learned.get(days));
+            due(text, "learn " + days, x().learn(days), plain.learned.get(days));
         }
-        due(text, "soon", x.soon(), plain.soon);
+        due(text, "soon", x().soon(), plain.soon);
     }
 
-    private static void compareLots(LedStrangers x, PlainTown plain, int[] told, String text) {
+    private static void compareLots(PlainTown plain, String text) {
         for (int kind = 0; kind < 5; kind++) {
             int seed = LOTS.nextInt();
-            PlainTown.Day day = plain.byLots(kind, told, seed);
+            PlainTown.Day day = plain.byLots(kind, TOLD, seed);
             int come = 0;
             for (int s = 0; s < plain.strangers.size(); s++) {
                 come += day.comes[s] ? 1 : 0;
             }
-            due(text, "seed " + kind + " " + seed + " 0", x.seed(kind, seed, 0), day.cost());
-            due(text, "seed " + kind + " " + seed + " 1", x.seed(kind, seed, 1), day.left());
-            due(text, "seed " + kind + " " + seed + " 2", x.seed(kind, seed, 2), come);
+            due(text, "seed " + kind + " " + seed + " 0", x().seed(kind, seed, 0), day.cost());
+            due(text, "seed " + kind + " " + seed + " 1", x().seed(kind, seed, 1), day.left());
+            due(text, "seed " + kind + " " + seed + " 2", x().seed(kind, seed, 2), come);
         }
         int first = LOTS.nextBoolean() ? LOTS.nextInt() : Integer.MAX_VALUE - 3;
         int many = 1 + LOTS.nextInt(12);
         long sum = 0;
         for (int i = 0; i < many; i++) {
-            sum += plain.byLots(0, told, first + i).cost();
+            sum += plain.byLots(0, TOLD, first + i).cost();
         }
-        due(text, "mean " + first + " " + many, x.mean(first, many), sum / many);
+        due(text, "mean " + first + " " + many, x().mean(first, many), sum / many);
     }
 
     // ---- texts with faults
 
     private static void compareFaults(int runs) {
         String signs = "  ;;0123456789aelst\u0000\u00e9A:-";
-        LedStrangers x = new LedStrangers();
         for (int i = 0; i < runs && CHECKS.allRight(); i++) {
             StringBuilder text = new StringBuilder(i % 3 == 0 ? townText(i % 5) : clausesByLots());
             for (int k = LOTS.nextInt(3); k > 0 && text.length() > 0; k--) {
@@ -297,8 +332,8 @@ public final class ComparedTest {
             text.setLength(Math.min(text.length(), LOTS.nextInt(4) == 0 ? LOTS.nextInt(601) : 600));
             PlainTown plain = PlainTown.read(Checks.bytes(text.toString()), text.length());
             int want = plain.faultKind == 0 ? plain.people.size() : plain.faultKind - 10;
-            due(text.toString(), "town", Checks.town(x, text.toString()), want);
-            due(text.toString(), "fault", x.fault(), plain.faultPlace);
+            due(text.toString(), "town", readTown(text.toString()), want);
+            due(text.toString(), "fault", x().fault(), plain.faultPlace);
         }
     }
 

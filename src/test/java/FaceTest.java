@@ -131,7 +131,7 @@ public final class FaceTest {
                 (com.sun.management.ThreadMXBean) java.lang.management.ManagementFactory.getThreadMXBean();
         callAll(x);
         long before = bean.getCurrentThreadAllocatedBytes();
-        for (int i = 0; i < 12; i++) {
+        for (int i = 0; i < 6; i++) {
             callAll(x);
         }
         long made = bean.getCurrentThreadAllocatedBytes() - before;
